@@ -856,8 +856,8 @@ public final class TextShell {
 
         /** The parameters are rows of others from a place on. */
         private void tellParameters(Row[] from, int first, int n) {
-            while (floor + n > pool.length) {
-                Row[] more = new Row[pool.length * 2];
+            if (floor + n > pool.length) {
+                Row[] more = new Row[2 * (floor + n)];
                 System.arraycopy(pool, 0, more, 0, pool.length);
                 pool = more;
             }
@@ -1745,7 +1745,7 @@ public final class TextShell {
                 if (c == ' ' || c == '\t') {
                     pass(c);
                 } else if (c == '#') {
-                    while (c != NONE && c != '\n') {
+                    for (int k = in.at; k < in.data.length && c != NONE && c != '\n'; k++) {
                         pass(c);
                         c = lookRaw();
                     }
@@ -2565,7 +2565,7 @@ public final class TextShell {
             emit(MARK);
             pass('\'');
             int c = lookRaw();
-            while (c != NONE && c != '\'') {
+            for (int k = in.at; k < in.data.length && c != NONE && c != '\''; k++) {
                 pass(c);
                 emit(c | QUOTED);
                 c = lookRaw();
@@ -2755,7 +2755,7 @@ public final class TextShell {
             int c = look();
             spelled.length = 0;
             if (beginsName(c)) {
-                while (isNameSign(c)) {
+                for (int k = in.at; k < in.data.length && isNameSign(c); k++) {
                     spelled.add(c);
                     pass(c);
                     c = look();
@@ -2764,7 +2764,7 @@ public final class TextShell {
             }
             if (isDigit(c)) {
                 int position = 0;
-                while (isDigit(c)) {
+                for (int k = in.at; k < in.data.length && isDigit(c); k++) {
                     position = Math.min(FAR_POSITION, position * 10 + (c - '0'));
                     pass(c);
                     c = look();
@@ -2887,7 +2887,7 @@ public final class TextShell {
             Row text = new Row(16);
             int bytes = 0;
             int c = lookRaw();
-            while (c != NONE && c != '`') {
+            for (int k = in.at; k < in.data.length && c != NONE && c != '`'; k++) {
                 pass(c);
                 bytes++;
                 if (c == '\\') {
@@ -2959,6 +2959,8 @@ public final class TextShell {
         private int halted;
         // The status of the command's last substitution, or NONE.
         private int substituted = NONE;
+        // What substitutions write, one at each level: made once and used again.
+        private final Stream[] captures = new Stream[MOST_LEVELS + 1];
 
         private Shell(Memory memory, Reader reader) {
             this.memory = memory;
@@ -3146,11 +3148,16 @@ public final class TextShell {
 
         /** What a substitution writes goes to a row of its own. */
         private Row capture() {
-            Row taken = new Row(16);
+            int place = Math.max(0, Math.min(level, MOST_LEVELS));
+            if (captures[place] == null) {
+                captures[place] = new Stream(new Row(16), null, false, MOST_PIPE);
+            }
+            Stream out = captures[place];
+            out.data.length = 0;
             save(1);
-            open[1] = new Stream(taken, null, false, MOST_PIPE);
+            open[1] = out;
             memory.enter(status);
-            return taken;
+            return out.data;
         }
 
         private void release() {
@@ -3202,7 +3209,9 @@ public final class TextShell {
             Tree function = name == null || isSpecial ? null : name.function;
             int mark = lent;
             if (assign(elements, !isSpecial && function == null)) {
-                if (isSpecial) {
+                if (command == C_EVAL || command == C_DOT) {
+                    further(command, first + 1, n - 1);
+                } else if (isSpecial) {
                     special(command, first + 1, n - 1);
                 } else if (function != null) {
                     call(function, first + 1, n - 1);
@@ -3531,10 +3540,6 @@ public final class TextShell {
         // ---- special commands ----
 
         private void special(int command, int first, int n) {
-            if (command == C_EVAL || command == C_DOT) {
-                further(command, first, n);
-                return;
-            }
             boolean right;
             switch (command) {
                 case C_COLON:
@@ -4225,8 +4230,7 @@ public final class TextShell {
             paths[0] = new Row(0);
             nodes[0] = memory.here;
             int at = from;
-            boolean more = true;
-            while (more) {
+            while (at <= to) {
                 if (shell.isSpent()) {
                     return;
                 }
@@ -4234,8 +4238,7 @@ public final class TextShell {
                 while (end < to && end < items.length && (!isSign(items[end]) || (items[end] & SIGN) != '/')) {
                     end++;
                 }
-                more = end < to;
-                extendPaths(at, end, at == from, more);
+                extendPaths(at, end, at == from, end < to);
                 if (shell.signal != Shell.GOING) {
                     return;
                 }
@@ -4333,8 +4336,8 @@ public final class TextShell {
         /** Items become a pattern. */
         private void prepare(int from, int to) {
             int length = 0;
-            while (pattern.length < to - from || elements.length < to - from + 1) {
-                pattern = new int[pattern.length * 2];
+            if (pattern.length <= to - from) {
+                pattern = new int[2 * (to - from)];
                 elements = new int[pattern.length];
                 reached = new int[pattern.length];
             }
@@ -4497,6 +4500,7 @@ public final class TextShell {
         private int entryTop;
         private Row text;
         private int at;
+        private final Row spelled = new Row(16);
         // Whether what is read now is reckoned.
         private boolean live;
         private int nested;
@@ -4617,8 +4621,14 @@ public final class TextShell {
                 return true;
             }
             at = to;
-            pushNumber(live ? valueOf(memory.find(text.part(from, to))) : 0);
+            pushNumber(live ? valueOf(memory.find(spell(from, to))) : 0);
             return false;
+        }
+
+        private Row spell(int from, int to) {
+            spelled.length = 0;
+            spelled.addPart(text, from, to);
+            return spelled;
         }
 
         /** A variable's value as a number. */
@@ -4831,7 +4841,7 @@ public final class TextShell {
             long value = popNumber();
             int operator = entries[base + 4];
             if (live) {
-                Name name = memory.name(text.part(entries[base + 2], entries[base + 3]));
+                Name name = memory.name(spell(entries[base + 2], entries[base + 3]));
                 if (operator != 0) {
                     value = binary(operator, valueOf(name), value);
                 }
@@ -5034,7 +5044,7 @@ public final class TextShell {
             text.length = 0;
             if (word >= words) {
                 int c = shell.take();
-                while (c != NONE) {
+                for (int i = 0; i < Shell.MOST_WORK && c != NONE; i++) {
                     text.add(c);
                     c = shell.take();
                 }
@@ -5249,7 +5259,7 @@ public final class TextShell {
         private boolean takeLine(boolean raw) {
             text.length = 0;
             int c = shell.take();
-            while (c != NONE && c != '\n') {
+            for (int i = 0; i < Shell.MOST_WORK && c != NONE && c != '\n'; i++) {
                 if (c == '\\' && !raw) {
                     c = shell.take();
                     if (c != NONE && c != '\n') {
@@ -5428,7 +5438,7 @@ public final class TextShell {
             boolean once = false;
             int start = 0;
             boolean option = true;
-            while (option) {
+            while (option && start < words) {
                 Row word = word(start);
                 option = word.is("-r") || word.is("-n") || word.is("-u");
                 reverse = reverse || word.is("-r");
@@ -5448,8 +5458,8 @@ public final class TextShell {
 
         /** Rows of one line, two, four .. that are in order are put together. */
         private void sortLines() {
-            while (order.length < lineCount || spare.length < lineCount) {
-                order = new int[order.length * 2];
+            if (order.length < lineCount) {
+                order = new int[2 * lineCount];
                 spare = new int[order.length];
             }
             for (int i = 0; i < lineCount; i++) {
@@ -5626,7 +5636,7 @@ public final class TextShell {
             boolean counts = false;
             boolean without = false;
             int start = 0;
-            while (word(start).is("-v") || word(start).is("-c")) {
+            while (start < words && (word(start).is("-v") || word(start).is("-c"))) {
                 without = without || word(start).is("-v");
                 counts = counts || word(start).is("-c");
                 start++;
