@@ -2230,7 +2230,7 @@ public final class TextShell {
             if (f.kind == CASE) {
                 return reserved == R_ESAC;
             }
-            if (f.first == null && f.command == null) {
+            if (f.first == null && f.state != BEHIND) {
                 return false;
             }
             switch (f.kind) {

@@ -1,4 +1,5 @@
 import java.nio.charset.StandardCharsets;
+import java.util.Objects;
 
 /** A TextShell with texts instead of numbers, and a count of what was not as it is due. */
 final class Session {
@@ -6,7 +7,7 @@ final class Session {
     final TextShell shell = new TextShell();
 
     static void due(String what, Object got, Object want) {
-        if (!got.equals(want)) {
+        if (!Objects.equals(got, want)) {
             wrong++;
             System.out.println(what + ": answered <" + got + ">, due is <" + want + ">");
         }
