@@ -223,7 +223,11 @@ public final class TextShell {
         if (most < 0 || most > 100000) {
             throw new IllegalArgumentException("no such bound");
         }
-        return shell.start(script, most);
+        shell.begin(most);
+        if (!shell.isSpent()) {
+            shell.list(script.body, false);
+        }
+        return shell.end();
     }
 
     /** The tape's first n bytes become the input. */
@@ -421,7 +425,7 @@ public final class TextShell {
     }
 
     private static boolean isNameSign(int c) {
-        return beginsName(c) || isDigit(c);
+        return c >= 'a' && c <= 'z' || c >= 'A' && c <= 'Z' || c == '_' || c >= '0' && c <= '9';
     }
 
     /** A row of signs: a value that stays as it is, or a text that grows. */
@@ -445,7 +449,9 @@ public final class TextShell {
 
         private void add(int sign) {
             if (length >= signs.length) {
-                widen();
+                char[] wider = new char[signs.length * 2];
+                System.arraycopy(signs, 0, wider, 0, signs.length);
+                signs = wider;
             }
             if (length >= 0 && length < signs.length) {
                 signs[length] = (char) sign;
@@ -453,14 +459,10 @@ public final class TextShell {
             }
         }
 
-        private void widen() {
-            char[] wider = new char[signs.length * 2];
-            System.arraycopy(signs, 0, wider, 0, signs.length);
-            signs = wider;
-        }
-
         private void addRow(Row other) {
-            addPart(other, 0, other.length);
+            for (int i = 0; i < other.length; i++) {
+                add(other.at(i));
+            }
         }
 
         private void addPart(Row other, int from, int to) {
@@ -497,7 +499,10 @@ public final class TextShell {
 
         private Row part(int from, int to) {
             Row part = new Row(to - from);
-            part.addPart(this, from, to);
+            for (int i = from; i < to && i >= 0 && i < signs.length && i - from < part.signs.length; i++) {
+                part.signs[i - from] = signs[i];
+                part.length++;
+            }
             return part;
         }
 
@@ -505,8 +510,19 @@ public final class TextShell {
             if (other == null || other.length != length) {
                 return false;
             }
-            for (int i = 0; i < length; i++) {
-                if (at(i) != other.at(i)) {
+            for (int i = 0; i < length && i < signs.length && i < other.signs.length; i++) {
+                if (signs[i] != other.signs[i]) {
+                    return false;
+                }
+            }
+            return true;
+        }
+
+        /** Whether a part of another row that begins there is this one. */
+        private boolean isPart(Row other, int from) {
+            for (int i = 0; i < length && i < signs.length; i++) {
+                int j = from + i;
+                if (j < 0 || j >= other.length || j >= other.signs.length || signs[i] != other.signs[j]) {
                     return false;
                 }
             }
@@ -527,9 +543,9 @@ public final class TextShell {
 
         /** Below 0, 0 or above 0, by the order of bytes. */
         private int order(Row other) {
-            for (int i = 0; i < length && i < other.length; i++) {
-                if (at(i) != other.at(i)) {
-                    return at(i) - other.at(i);
+            for (int i = 0; i < length && i < other.length && i < signs.length && i < other.signs.length; i++) {
+                if (signs[i] != other.signs[i]) {
+                    return signs[i] - other.signs[i];
                 }
             }
             return length - other.length;
@@ -743,8 +759,8 @@ public final class TextShell {
 
         private static int bucket(Row text) {
             int hash = 0;
-            for (int i = 0; i < text.length; i++) {
-                hash = hash * 31 + text.at(i);
+            for (int i = 0; i < text.length && i < text.signs.length; i++) {
+                hash = hash * 31 + text.signs[i];
             }
             return hash & BUCKETS - 1;
         }
@@ -956,30 +972,27 @@ public final class TextShell {
                     at = at.isDirectory() ? at : null;
                 } else {
                     int end = path.next('/', i);
-                    at = at.step(path.part(i, end));
+                    at = at.step(path, i, end);
                     i = end;
                 }
             }
             return at;
         }
 
-        /** What one name leads to. */
-        private Node step(Row part) {
-            if (!isDirectory()) {
+        /** What the name that stands in a row from a place on leads to. */
+        private Node step(Row row, int from, int to) {
+            if (data != null) {
                 return null;
             }
-            if (part.is(".")) {
+            boolean dot = to > from && row.at(from) == '.';
+            if (dot && to - from == 1) {
                 return this;
             }
-            if (part.is("..")) {
+            if (dot && to - from == 2 && row.at(from + 1) == '.') {
                 return parent == null ? this : parent;
             }
-            return child(part);
-        }
-
-        private Node child(Row part) {
             for (Node n = first; n != null; n = n.next) {
-                if (n.name.same(part)) {
+                if (n.name.length == to - from && n.name.isPart(row, from)) {
                     return n;
                 }
             }
@@ -1014,11 +1027,10 @@ public final class TextShell {
             if (up == null || start < 0 || root.files + root.directories >= MOST_NODES) {
                 return null;
             }
-            Row last = path.part(start, path.length);
-            if (up.child(last) != null) {
+            if (up.step(path, start, path.length) != null) {
                 return null;
             }
-            Node made = new Node(last, up, directory);
+            Node made = new Node(path.part(start, path.length), up, directory);
             up.insert(made);
             if (directory) {
                 root.directories++;
@@ -1463,6 +1475,9 @@ public final class TextShell {
         private static final int F_ARITHMETIC = 27;
         private static final int F_BODY = 28;
 
+        private static final int DUE_TOKEN = 1;
+        private static final int DUE_DOLLAR = 2;
+
         private static final int BEGIN = 0;
         private static final int IN_SIMPLE = 1;
         private static final int BEHIND = 2;
@@ -1509,6 +1524,8 @@ public final class TextShell {
         private int inner;
         private int commands;
         private int source;
+        // What is to be done ahead of the next sign: a token taken, or a part that begins with $ read.
+        private int due;
         private int token;
         private int tokenLine;
         private boolean tokenFollows;
@@ -1532,8 +1549,24 @@ public final class TextShell {
             if (begins(text.length)) {
                 openText(text, F_TEXT, null);
             }
+            due = 0;
             for (int i = 0; i < STEPS && fault == 0 && depth > 0; i++) {
-                step();
+                Frame f = top();
+                int now = due;
+                due = 0;
+                if (now == DUE_TOKEN) {
+                    accept(f);
+                } else if (now == DUE_DOLLAR) {
+                    dollar(f.has(IN_DOUBLE));
+                } else if (f.kind < F_BODIES) {
+                    nextToken(f);
+                } else if (f.kind == F_BODIES) {
+                    nextBody(f);
+                } else if (f.has(IN_DOUBLE)) {
+                    quotedSign(f);
+                } else {
+                    bareSign(f);
+                }
             }
             return fault == 0 && script != null;
         }
@@ -1608,32 +1641,6 @@ public final class TextShell {
             Frame f = enter(kind, BEGIN, null);
             f.source = in;
             return f;
-        }
-
-        private void step() {
-            Frame f = top();
-            switch (f.kind) {
-                case F_WORD:
-                    bareSign(f);
-                    break;
-                case F_PARAMETER:
-                    if (f.has(IN_DOUBLE)) {
-                        quotedSign(f);
-                    } else {
-                        bareSign(f);
-                    }
-                    break;
-                case F_QUOTES:
-                case F_ARITHMETIC:
-                case F_BODY:
-                    quotedSign(f);
-                    break;
-                case F_BODIES:
-                    nextBody(f);
-                    break;
-                default:
-                    nextToken(f);
-            }
         }
 
         // ---- signs ----
@@ -1723,11 +1730,11 @@ public final class TextShell {
             int c = look();
             if (c == NONE) {
                 token = END;
-                accept(f);
+                due = DUE_TOKEN;
             } else if (endsWord(c)) {
                 pass(c);
                 token = operator(c);
-                accept(f);
+                due = DUE_TOKEN;
             } else {
                 Frame w = enter(F_WORD, 0, f.script);
                 w.line = in.line;
@@ -1822,7 +1829,7 @@ public final class TextShell {
             int next = look();
             boolean number = w.told.length == 1 && isDigit(w.told.at(0)) && (next == '<' || next == '>');
             token = number ? NUMBER_TOKEN : WORD_TOKEN;
-            accept(top());
+            due = DUE_TOKEN;
         }
 
         private static boolean isPlain(Tree w) {
@@ -1835,7 +1842,7 @@ public final class TextShell {
         }
 
         private static boolean isName(Tree w) {
-            return isPlain(w) && w.told.isName();
+            return isPlain(w) && w.told.isNameUpTo(w.told.length);
         }
 
         /** Which reserved word the token would be, or 0. */
@@ -2546,7 +2553,7 @@ public final class TextShell {
                     openQuotes(f);
                     break;
                 case '$':
-                    dollar(false);
+                    due = DUE_DOLLAR;
                     break;
                 case '`':
                     ticks(false);
@@ -2622,7 +2629,7 @@ public final class TextShell {
                     escape(f);
                     break;
                 case '$':
-                    dollar(true);
+                    due = DUE_DOLLAR;
                     break;
                 case '`':
                     ticks(true);
@@ -2787,8 +2794,8 @@ public final class TextShell {
                 noParameter(line, c);
             } else if (next == '}') {
                 closeBraces(flag, id);
-            } else if (c == '#') {
-                behindHash(line, flag, next);
+            } else if (c == '#' && !(next == ':' || next == '=' || next == '+' || next == '%')) {
+                behindHash(line, flag, next, spelledParameter());
             } else {
                 operator(line, flag, id);
             }
@@ -2804,13 +2811,8 @@ public final class TextShell {
             parameter(flags, id);
         }
 
-        /** Behind ${# : a length, or an operator of the parameter # . */
-        private void behindHash(int line, int flag, int c) {
-            if (c != NONE && ":=+%".indexOf((char) c) >= 0) {
-                operator(line, flag, HOW_MANY);
-                return;
-            }
-            int id = spelledParameter();
+        /** Behind ${# and c, which is spelled as a parameter or not: its length, or an operator of # . */
+        private void behindHash(int line, int flag, int c, int id) {
             int next = look();
             if (id == 0) {
                 noParameter(line, c);
@@ -2970,8 +2972,8 @@ public final class TextShell {
             base[2] = new Stream(new Row(64), null, false, MOST_WRITTEN);
         }
 
-        /** A script runs in the shell itself. */
-        private int start(Tree script, int most) {
+        /** A script is about to run in the shell itself. */
+        private void begin(int most) {
             this.most = most;
             simples = 0;
             signal = GOING;
@@ -2981,9 +2983,10 @@ public final class TextShell {
             for (int i = 0; i < 3; i++) {
                 open[i] = base[i];
             }
-            if (!isSpent()) {
-                list(script.body, false);
-            }
+        }
+
+        /** The script came to its end, or was left: why. */
+        private int end() {
             if (signal == HALTING) {
                 status = HALTED_STATUS;
             }
@@ -3037,6 +3040,12 @@ public final class TextShell {
                 if (open[1] != null) {
                     open[1].push(sign);
                 }
+            }
+        }
+
+        private void writeAll(Row row) {
+            for (int i = 0; i < row.length; i++) {
+                write(row.at(i));
             }
         }
 
@@ -3216,8 +3225,11 @@ public final class TextShell {
                 } else if (function != null) {
                     call(function, first + 1, n - 1);
                 } else if (command != 0) {
-                    int result = tools.work(command, first + 1, n - 1);
+                    tools.begin(first + 1, n - 1);
+                    int result = command <= C_UNALIAS ? tools.work(command)
+                        : command <= C_SEQ ? tools.filter(command) : tools.files(command);
                     status = signal == GOING ? result : status;
+                    writeAll(tools.made);
                 } else {
                     status = 127;
                 }
@@ -3551,7 +3563,7 @@ public final class TextShell {
                     break;
                 case C_RETURN:
                 case C_EXIT:
-                    right = end(command, first, n);
+                    right = leave(command, first, n);
                     break;
                 case C_SET:
                     right = set(first, n);
@@ -3644,7 +3656,7 @@ public final class TextShell {
             return true;
         }
 
-        private boolean end(int command, int first, int n) {
+        private boolean leave(int command, int first, int n) {
             Row word = expander.field(first);
             if (n > 1 || n == 1 && !word.isNumber()) {
                 return false;
@@ -4259,11 +4271,12 @@ public final class TextShell {
                 if (name.length == 0) {
                     addPath(paths[i], isFirst, name, isFirst ? memory.root : node, behind);
                 } else if (!pattern) {
-                    addPath(paths[i], isFirst, name, node.step(name), behind);
+                    addPath(paths[i], isFirst, name, node.step(name, 0, name.length), behind);
                 } else {
                     for (Node n = node.first; n != null && pathCount - old <= MOST_PATHS; n = n.next) {
                         boolean hidden = n.name.at(0) == '.' && name.at(0) != '.';
-                        if (!hidden && matchesPattern(n.name)) {
+                        walk(n.name, false);
+                        if (!hidden && longest == n.name.length) {
                             addPath(paths[i], isFirst, n.name, n, behind);
                         }
                     }
@@ -4325,10 +4338,6 @@ public final class TextShell {
         /** Whether the items from a place on match a value as a pattern. */
         private boolean matches(int start, Row value) {
             prepare(start, top);
-            return matchesPattern(value);
-        }
-
-        private boolean matchesPattern(Row value) {
             walk(value, false);
             return longest == value.length;
         }
@@ -4385,7 +4394,8 @@ public final class TextShell {
                     longest = i;
                 }
                 if (i < value.length) {
-                    some = passSign(value.at(backwards ? value.length - 1 - i : i), backwards);
+                    passSign(value.at(backwards ? value.length - 1 - i : i), backwards);
+                    some = passStars(backwards);
                 }
             }
         }
@@ -4412,7 +4422,7 @@ public final class TextShell {
             return some || reached[elementCount] != 0;
         }
 
-        private boolean passSign(int sign, boolean backwards) {
+        private void passSign(int sign, boolean backwards) {
             for (int j = elementCount; j >= 0; j--) {
                 boolean stays = j < elementCount && reached[j] != 0 && isStar(element(j, backwards));
                 boolean comes = false;
@@ -4422,22 +4432,18 @@ public final class TextShell {
                 }
                 reached[j] = stays || comes ? 1 : 0;
             }
-            return passStars(backwards);
         }
 
+        /** Whether an element (a sign, ? or a set) stands for a sign. */
         private boolean fits(int element, int sign) {
             int from = elements[element];
-            int to = elements[element + 1];
-            if (to - from > 1) {
-                return isInSet(from + 1, to - 1, sign);
+            int to = elements[element + 1] - 1;
+            if (to == from) {
+                return pattern[from] == '?' || (pattern[from] & SIGN) == sign;
             }
-            return pattern[from] == '?' || (pattern[from] & SIGN) == sign;
-        }
-
-        private boolean isInSet(int from, int to, int sign) {
-            boolean not = pattern[from] == '!';
+            boolean not = pattern[from + 1] == '!';
             boolean found = false;
-            int i = not ? from + 1 : from;
+            int i = not ? from + 2 : from + 1;
             while (i < to) {
                 int low = pattern[i] & SIGN;
                 int high = low;
@@ -4664,7 +4670,7 @@ public final class TextShell {
         }
 
         private static int hexDigit(int c) {
-            if (isDigit(c)) {
+            if (c >= '0' && c <= '9') {
                 return c - '0';
             }
             if (c >= 'a' && c <= 'f') {
@@ -4912,6 +4918,8 @@ public final class TextShell {
         private final Expander expander;
         // What was read, where its lines begin, and the order that they have been brought in.
         private final Row text = new Row(64);
+        // What is to be written once the command is through.
+        private final Row made = new Row(64);
         private int[] lines = new int[64];
         private int[] order = new int[64];
         private int[] spare = new int[64];
@@ -4935,9 +4943,14 @@ public final class TextShell {
             return expander.field(i >= 0 && i < words ? first + i : NONE);
         }
 
-        private int work(int command, int first, int words) {
+        /** A command with these fields is about to run. */
+        private void begin(int first, int words) {
             this.first = first;
             this.words = words;
+            made.length = 0;
+        }
+
+        private int work(int command) {
             switch (command) {
                 case C_TRUE:
                     return 0;
@@ -4946,7 +4959,7 @@ public final class TextShell {
                 case C_ECHO:
                     return echo();
                 case C_PRINTF:
-                    return words > 0 && printf(false) ? printed() : WRONG;
+                    return printf();
                 case C_TEST:
                     return test(0, words);
                 case C_BRACKET:
@@ -4959,10 +4972,8 @@ public final class TextShell {
                     return pwd();
                 case C_ALIAS:
                     return alias();
-                case C_UNALIAS:
-                    return unalias();
                 default:
-                    return command <= C_SEQ ? filter(command) : files(command);
+                    return unalias();
             }
         }
 
@@ -5015,27 +5026,35 @@ public final class TextShell {
 
         // ---- what is written and read ----
 
-        private void write(Row row) {
+        /** More than WORK allows is never written. */
+        private void tell(int sign) {
+            if (made.length < Shell.MOST_WORK) {
+                made.add(sign);
+            }
+        }
+
+        private void tellRow(Row row) {
             for (int i = 0; i < row.length; i++) {
-                shell.write(row.at(i));
+                tell(row.at(i));
             }
         }
 
-        private void writeText(int start, int end) {
+        private void tellNumber(long number) {
+            if (made.length < Shell.MOST_WORK) {
+                made.addNumber(number);
+            }
+        }
+
+        /** A part of the text as a line. */
+        private void tellPart(int start, int end) {
             for (int i = start; i < end; i++) {
-                shell.write(text.at(i));
+                tell(text.at(i));
             }
+            tell('\n');
         }
 
-        private void writeNumber(long number) {
-            from.length = 0;
-            from.addNumber(number);
-            write(from);
-        }
-
-        private void writeLine(int line) {
-            writeText(lines[line], lines[line + 1] - 1);
-            shell.write('\n');
+        private void tellLine(int line) {
+            tellPart(lines[line], lines[line + 1] - 1);
         }
 
         /** Reads the files that are told from a word on, or the input: 1 if one is not there. */
@@ -5076,12 +5095,6 @@ public final class TextShell {
             lines[lineCount] = at;
         }
 
-        private int takeLines(int word) {
-            int status = takeAll(word);
-            findLines();
-            return status;
-        }
-
         // ---- echo, printf, test, read ----
 
         private int echo() {
@@ -5089,90 +5102,72 @@ public final class TextShell {
             int start = bare ? 1 : 0;
             for (int i = start; i < words; i++) {
                 if (i > start) {
-                    shell.write(' ');
+                    tell(' ');
                 }
-                write(word(i));
+                tellRow(word(i));
             }
             if (!bare) {
-                shell.write('\n');
+                tell('\n');
             }
             return 0;
         }
 
-        private int printed() {
-            printf(true);
-            return 0;
-        }
-
-        /** Goes through the format as often as words are left; it is wrongly told or not. */
-        private boolean printf(boolean writes) {
+        /** Goes through the format as often as words are left and it takes some. */
+        private int printf() {
             int next = 1;
-            for (int round = 0; round <= words; round++) {
-                int after = format(next, writes);
+            boolean again = true;
+            for (int round = 0; round <= words && again; round++) {
+                int after = words > 0 ? format(next) : NONE;
                 if (after < 0) {
-                    return false;
+                    made.length = 0;
+                    return WRONG;
                 }
-                if (after == next || after >= words) {
-                    return true;
-                }
+                again = after > next && after < words;
                 next = after;
             }
-            return true;
+            return 0;
         }
 
         /** One time through the format: the word behind those that it took, or NONE if it is wrong. */
-        private int format(int firstWord, boolean writes) {
+        private int format(int firstWord) {
             Row format = word(0);
             int next = firstWord;
             int i = 0;
             while (i < format.length) {
                 int c = format.at(i);
                 int d = format.at(i + 1);
+                i += 2;
                 if (c == '%' && d == '%') {
-                    writeIf(writes, '%');
-                    i += 2;
+                    tell('%');
                 } else if (c == '%') {
-                    Row word = word(next);
-                    if (!converts(d, word, next < words, writes)) {
+                    if (!converts(d, word(next), next < words)) {
                         return NONE;
                     }
                     next++;
-                    i += 2;
                 } else if (c == '\\' && (d == 'n' || d == 't' || d == '\\')) {
-                    writeIf(writes, d == 'n' ? '\n' : d == 't' ? '\t' : '\\');
-                    i += 2;
+                    tell(d == 'n' ? '\n' : d == 't' ? '\t' : '\\');
                 } else {
-                    writeIf(writes, c);
-                    i++;
+                    tell(c);
+                    i--;
                 }
             }
             return next;
         }
 
-        private void writeIf(boolean writes, int sign) {
-            if (writes) {
-                shell.write(sign);
-            }
-        }
-
-        private boolean converts(int how, Row word, boolean there, boolean writes) {
+        private boolean converts(int how, Row word, boolean there) {
             if (how == 'd') {
                 if (there && !word.isNumber()) {
                     return false;
                 }
-                if (writes) {
-                    writeNumber(there ? word.number() : 0);
-                }
+                tellNumber(there ? word.number() : 0);
                 return true;
             }
-            if (how != 's' && how != 'c') {
-                return false;
+            if (how == 's') {
+                tellRow(word);
+            } else if (how == 'c' && word.length > 0) {
+                tell(word.at(0));
             }
-            int length = how == 'c' ? Math.min(1, word.length) : word.length;
-            for (int i = 0; i < length && writes; i++) {
-                shell.write(word.at(i));
-            }
-            return true;
+            return how == 's' || how == 'c';
         }
 
         private int test(int at, int n) {
@@ -5335,17 +5330,17 @@ public final class TextShell {
                 depth++;
             }
             if (depth == 0) {
-                shell.write('/');
+                tell('/');
             }
             for (int i = depth; i > 0; i--) {
                 Node n = memory.here;
                 for (int up = 1; up < i && n.parent != null; up++) {
                     n = n.parent;
                 }
-                shell.write('/');
-                write(n.name);
+                tell('/');
+                tellRow(n.name);
             }
-            shell.write('\n');
+            tell('\n');
             return 0;
         }
 
@@ -5389,7 +5384,7 @@ public final class TextShell {
 
         private int cat() {
             int status = takeAll(0);
-            write(text);
+            tellRow(text);
             return status;
         }
 
@@ -5408,8 +5403,8 @@ public final class TextShell {
                 found += counts ? 1 : 0;
                 within = !blank;
             }
-            writeNumber(found);
-            shell.write('\n');
+            tellNumber(found);
+            tell('\n');
             return status;
         }
 
@@ -5423,11 +5418,12 @@ public final class TextShell {
                 most = word(1).number();
                 start = 2;
             }
-            int status = takeLines(start);
+            int status = takeAll(start);
+            findLines();
             int begin = head ? 0 : (int) Math.max(0, lineCount - most);
             int end = head ? (int) Math.min(lineCount, most) : lineCount;
             for (int i = begin; i < end; i++) {
-                writeLine(i);
+                tellLine(i);
             }
             return status;
         }
@@ -5446,11 +5442,12 @@ public final class TextShell {
                 once = once || word.is("-u");
                 start += option ? 1 : 0;
             }
-            int status = takeLines(start);
+            int status = takeAll(start);
+            findLines();
             sortLines();
             for (int i = 0; i < lineCount; i++) {
                 if (!once || i == 0 || orderBytes(order[i - 1], order[i]) != 0) {
-                    writeLine(order[i]);
+                    tellLine(order[i]);
                 }
             }
             return status;
@@ -5496,7 +5493,7 @@ public final class TextShell {
             int lengthA = lines[a + 1] - 1 - lines[a];
             int lengthB = lines[b + 1] - 1 - lines[b];
             for (int i = 0; i < lengthA && i < lengthB; i++) {
-                int difference = text.at(lines[a] + i) - text.at(lines[b] + i);
+                int difference = text.signs[lines[a] + i] - text.signs[lines[b] + i];
                 if (difference != 0) {
                     return difference;
                 }
@@ -5525,15 +5522,16 @@ public final class TextShell {
             if (words > (counts ? 1 : 0)) {
                 return WRONG;
             }
-            takeLines(words);
+            takeAll(words);
+            findLines();
             int begin = 0;
             for (int i = 0; i < lineCount; i++) {
                 if (i + 1 == lineCount || orderBytes(i, i + 1) != 0) {
                     if (counts) {
-                        writeNumber(i + 1 - begin);
-                        shell.write(' ');
+                        tellNumber(i + 1 - begin);
+                        tell(' ');
                     }
-                    writeLine(i);
+                    tellLine(i);
                     begin = i + 1;
                 }
             }
@@ -5563,7 +5561,7 @@ public final class TextShell {
             for (int i = 0; i < text.length; i++) {
                 int c = table[text.at(i) & SIGN];
                 if (c != NONE) {
-                    shell.write(c);
+                    tell(c);
                 }
             }
             return 0;
@@ -5614,7 +5612,8 @@ public final class TextShell {
             }
             int sign = word(1).at(0);
             long field = word(3).number();
-            int status = takeLines(4);
+            int status = takeAll(4);
+            findLines();
             for (int i = 0; i < lineCount; i++) {
                 int end = lines[i + 1] - 1;
                 int start = lines[i];
@@ -5626,8 +5625,7 @@ public final class TextShell {
                     }
                     end = stop;
                 }
-                writeText(start, end);
-                shell.write('\n');
+                tellPart(start, end);
             }
             return status;
         }
@@ -5645,19 +5643,20 @@ public final class TextShell {
                 return WRONG;
             }
             Row sought = word(start);
-            int status = takeLines(start + 1);
+            int status = takeAll(start + 1);
+            findLines();
             int found = 0;
             for (int i = 0; i < lineCount; i++) {
                 if (has(i, sought) != without) {
                     found++;
                     if (!counts) {
-                        writeLine(i);
+                        tellLine(i);
                     }
                 }
             }
             if (counts) {
-                writeNumber(found);
-                shell.write('\n');
+                tellNumber(found);
+                tell('\n');
             }
             return found == 0 ? 1 : status;
         }
@@ -5686,8 +5685,8 @@ public final class TextShell {
                 return WRONG;
             }
             for (long i = low; i <= high; i++) {
-                writeNumber(i);
-                shell.write('\n');
+                tellNumber(i);
+                tell('\n');
             }
             return 0;
         }
@@ -5703,12 +5702,12 @@ public final class TextShell {
                 return 1;
             }
             if (!node.isDirectory()) {
-                write(word(0));
-                shell.write('\n');
+                tellRow(word(0));
+                tell('\n');
             }
             for (Node n = node.first; n != null; n = n.next) {
-                write(n.name);
-                shell.write('\n');
+                tellRow(n.name);
+                tell('\n');
             }
             return 0;
         }
