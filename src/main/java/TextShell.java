@@ -551,17 +551,14 @@ public final class TextShell {
             return length - other.length;
         }
 
-        /** Where the sign stands first from a place on, or the length. */
-        private int next(int sign, int from) {
-            return next(sign, from, length);
-        }
-
-        private int next(int sign, int from, int to) {
-            int i = from;
-            while (i < to && at(i) != sign) {
-                i++;
+        /** Where the sign stands first from a place on and ahead of another one, or that one. */
+        private int place(int sign, int from, int to) {
+            for (int i = Math.max(0, from); i < to && i < signs.length; i++) {
+                if (signs[i] == sign) {
+                    return i;
+                }
             }
-            return Math.min(i, to);
+            return to;
         }
 
         private boolean isName() {
@@ -590,7 +587,7 @@ public final class TextShell {
         }
 
         private boolean isAliasText() {
-            return isText() && next('\n', 0) == length;
+            return isText() && place('\n', 0, length) == length;
         }
 
         /** Whether it is perhaps - and 1 .. 18 digits. */
@@ -971,7 +968,7 @@ public final class TextShell {
                     i++;
                     at = at.isDirectory() ? at : null;
                 } else {
-                    int end = path.next('/', i);
+                    int end = path.place('/', i, path.length);
                     at = at.step(path, i, end);
                     i = end;
                 }
@@ -3745,7 +3742,7 @@ public final class TextShell {
         private boolean declare(boolean readOnly, int first, int n) {
             for (int i = 0; i < n; i++) {
                 Row word = expander.field(first + i);
-                int end = word.next('=', 0);
+                int end = word.place('=', 0, word.length);
                 if (!word.isNameUpTo(end)) {
                     return false;
                 }
@@ -5081,7 +5078,7 @@ public final class TextShell {
             while (at < text.length) {
                 noteLine(at);
                 lineCount++;
-                at = text.next('\n', at) + 1;
+                at = text.place('\n', at, text.length) + 1;
             }
             noteLine(Math.max(at, 1));
         }
@@ -5348,7 +5345,7 @@ public final class TextShell {
             int status = 0;
             for (int i = 0; i < words; i++) {
                 Row word = word(i);
-                int end = word.next('=', 0);
+                int end = word.place('=', 0, word.length);
                 if (end == word.length) {
                     Name name = memory.find(word);
                     status = name == null || name.alias == null ? 1 : status;
@@ -5617,11 +5614,11 @@ public final class TextShell {
             for (int i = 0; i < lineCount; i++) {
                 int end = lines[i + 1] - 1;
                 int start = lines[i];
-                int stop = text.next(sign, start, end);
+                int stop = text.place(sign, start, end);
                 if (stop < end) {
                     for (long k = 1; k < field && start <= end; k++) {
                         start = stop + 1;
-                        stop = text.next(sign, start, end);
+                        stop = text.place(sign, start, end);
                     }
                     end = stop;
                 }
