@@ -779,7 +779,9 @@ public final class TextShell {
             }
             if (size >= names.length) {
                 Name[] more = new Name[names.length * 2];
-                System.arraycopy(names, 0, more, 0, names.length);
+                for (int i = 0; i < names.length && i < more.length; i++) {
+                    more[i] = names[i];
+                }
                 names = more;
             }
             Name made = new Name(text.part(0, text.length), size);
@@ -812,7 +814,9 @@ public final class TextShell {
             }
             if (logged >= log.length) {
                 Name[] more = new Name[log.length * 2];
-                System.arraycopy(log, 0, more, 0, log.length);
+                for (int i = 0; i < log.length && i < more.length; i++) {
+                    more[i] = log[i];
+                }
                 log = more;
             }
             Name entry = log[logged];
@@ -852,10 +856,12 @@ public final class TextShell {
             }
             subshells--;
             int at = subshells * SAVED;
-            while (logged > saves[at] && logged <= log.length) {
+            while (logged > saves[at] && logged > 0 && logged <= log.length) {
                 logged--;
                 Name entry = log[logged];
-                entry.of.copyState(entry);
+                if (entry != null && entry.of != null) {
+                    entry.of.copyState(entry);
+                }
             }
             here = places[subshells];
             base = saves[at + 1];
@@ -871,12 +877,14 @@ public final class TextShell {
         private void tellParameters(Row[] from, int first, int n) {
             if (floor + n > pool.length) {
                 Row[] more = new Row[2 * (floor + n)];
-                System.arraycopy(pool, 0, more, 0, pool.length);
+                for (int i = 0; i < pool.length && i < more.length; i++) {
+                    more[i] = pool[i];
+                }
                 pool = more;
             }
             base = floor;
             parameters = n;
-            for (int i = 0; i < n && first + i < from.length; i++) {
+            for (int i = 0; i < n && first + i < from.length && base + i < pool.length; i++) {
                 pool[base + i] = from[first + i];
             }
         }
@@ -1611,7 +1619,9 @@ public final class TextShell {
         private Frame enter(int kind, int state, Frame script) {
             if (depth >= frames.length) {
                 Frame[] more = new Frame[frames.length * 2];
-                System.arraycopy(frames, 0, more, 0, frames.length);
+                for (int i = 0; i < frames.length && i < more.length; i++) {
+                    more[i] = frames[i];
+                }
                 frames = more;
             }
             Frame f = frames[depth];
@@ -2306,7 +2316,9 @@ public final class TextShell {
             inner--;
             if (scriptCount >= scripts.length) {
                 Tree[] more = new Tree[scripts.length * 2];
-                System.arraycopy(scripts, 0, more, 0, scripts.length);
+                for (int i = 0; i < scripts.length && i < more.length; i++) {
+                    more[i] = scripts[i];
+                }
                 scripts = more;
             }
             scripts[scriptCount] = s;
@@ -3258,8 +3270,12 @@ public final class TextShell {
             if (lent >= lentNames.length || lent >= lentValues.length) {
                 Name[] names = new Name[lentNames.length * 2];
                 Row[] values = new Row[names.length];
-                System.arraycopy(lentNames, 0, names, 0, lentNames.length);
-                System.arraycopy(lentValues, 0, values, 0, lentValues.length);
+                for (int i = 0; i < lentNames.length && i < names.length; i++) {
+                    names[i] = lentNames[i];
+                }
+                for (int i = 0; i < lentValues.length && i < values.length; i++) {
+                    values[i] = lentValues[i];
+                }
                 lentNames = names;
                 lentValues = values;
             }
@@ -3476,7 +3492,7 @@ public final class TextShell {
                     }
                     boolean out = r.link == GREAT || r.link == APPEND || r.link == DUP_OUT;
                     int number = r.number >= 0 ? r.number : out ? 1 : 0;
-                    Stream made = number > 2 ? null : opened(r.link, told);
+                    Stream made = number >= open.length ? null : opened(r.link, told);
                     if (made == null) {
                         status = 1;
                         return false;
@@ -3500,7 +3516,8 @@ public final class TextShell {
                         return closed;
                     }
                     int number = told.length == 1 ? told.at(0) - '0' : NONE;
-                    return number < 0 || number > 2 || open[number] == closed ? null : open[number];
+                    boolean isOpen = number >= 0 && number < open.length && open[number] != closed;
+                    return isOpen ? open[number] : null;
                 default:
                     return openedFile(operator, told);
             }
@@ -3528,7 +3545,9 @@ public final class TextShell {
             if (redirected >= savedStreams.length || redirected >= savedNumbers.length) {
                 Stream[] streams = new Stream[savedStreams.length * 2];
                 int[] numbers = new int[streams.length];
-                System.arraycopy(savedStreams, 0, streams, 0, savedStreams.length);
+                for (int i = 0; i < savedStreams.length && i < streams.length; i++) {
+                    streams[i] = savedStreams[i];
+                }
                 System.arraycopy(savedNumbers, 0, numbers, 0, savedNumbers.length);
                 savedStreams = streams;
                 savedNumbers = numbers;
@@ -3542,7 +3561,10 @@ public final class TextShell {
         private void restore(int mark) {
             while (redirected > mark && redirected > 0) {
                 redirected--;
-                open[savedNumbers[redirected]] = savedStreams[redirected];
+                int number = savedNumbers[redirected];
+                if (number >= 0 && number < open.length) {
+                    open[number] = savedStreams[redirected];
+                }
             }
         }
 
@@ -3879,7 +3901,9 @@ public final class TextShell {
         private void addField(Row row) {
             if (fieldTop >= fields.length) {
                 Row[] more = new Row[fields.length * 2];
-                System.arraycopy(fields, 0, more, 0, fields.length);
+                for (int i = 0; i < fields.length && i < more.length; i++) {
+                    more[i] = fields[i];
+                }
                 fields = more;
             }
             fields[fieldTop] = row;
@@ -4281,7 +4305,7 @@ public final class TextShell {
             }
             int length = 0;
             pathCount -= old;
-            for (int i = 0; i < pathCount; i++) {
+            for (int i = 0; i < pathCount && old + i < paths.length && old + i < nodes.length; i++) {
                 paths[i] = paths[old + i];
                 nodes[i] = nodes[old + i];
                 length += paths[i].length;
@@ -4301,8 +4325,12 @@ public final class TextShell {
             if (pathCount >= paths.length || pathCount >= nodes.length) {
                 Row[] rows = new Row[paths.length * 2];
                 Node[] more = new Node[rows.length];
-                System.arraycopy(paths, 0, rows, 0, paths.length);
-                System.arraycopy(nodes, 0, more, 0, nodes.length);
+                for (int i = 0; i < paths.length && i < rows.length; i++) {
+                    rows[i] = paths[i];
+                }
+                for (int i = 0; i < nodes.length && i < more.length; i++) {
+                    more[i] = nodes[i];
+                }
                 paths = rows;
                 nodes = more;
             }
@@ -4402,7 +4430,8 @@ public final class TextShell {
         }
 
         private boolean isStar(int element) {
-            return pattern[elements[element]] == '*';
+            int at = element >= 0 && element < elements.length ? elements[element] : NONE;
+            return at >= 0 && at < pattern.length && pattern[at] == '*';
         }
 
         /** A star may stand for nothing. Whether anything is reached. */
@@ -4433,8 +4462,14 @@ public final class TextShell {
 
         /** Whether an element (a sign, ? or a set) stands for a sign. */
         private boolean fits(int element, int sign) {
+            if (element < 0 || element + 1 >= elements.length) {
+                return false;
+            }
             int from = elements[element];
             int to = elements[element + 1] - 1;
+            if (from < 0 || to < from || to >= pattern.length) {
+                return false;
+            }
             if (to == from) {
                 return pattern[from] == '?' || (pattern[from] & SIGN) == sign;
             }
@@ -5051,7 +5086,12 @@ public final class TextShell {
         }
 
         private void tellLine(int line) {
-            tellPart(lines[line], lines[line + 1] - 1);
+            tellPart(lineAt(line), lineAt(line + 1) - 1);
+        }
+
+        /** Where a line begins. */
+        private int lineAt(int line) {
+            return line >= 0 && line < lines.length ? lines[line] : 0;
         }
 
         /** Reads the files that are told from a word on, or the input: 1 if one is not there. */
@@ -5472,7 +5512,7 @@ public final class TextShell {
         private void merge(int start, int middle, int end) {
             int a = start;
             int b = middle;
-            for (int i = start; i < end; i++) {
+            for (int i = start; i < end && i < spare.length && end <= order.length; i++) {
                 boolean left = b >= end || a < middle && compare(order[a], order[b]) <= 0;
                 spare[i] = left ? order[a] : order[b];
                 a += left ? 1 : 0;
@@ -5487,10 +5527,12 @@ public final class TextShell {
         }
 
         private int orderBytes(int a, int b) {
-            int lengthA = lines[a + 1] - 1 - lines[a];
-            int lengthB = lines[b + 1] - 1 - lines[b];
+            int startA = lineAt(a);
+            int startB = lineAt(b);
+            int lengthA = lineAt(a + 1) - 1 - startA;
+            int lengthB = lineAt(b + 1) - 1 - startB;
             for (int i = 0; i < lengthA && i < lengthB; i++) {
-                int difference = text.signs[lines[a] + i] - text.signs[lines[b] + i];
+                int difference = text.at(startA + i) - text.at(startB + i);
                 if (difference != 0) {
                     return difference;
                 }
@@ -5500,7 +5542,7 @@ public final class TextShell {
 
         /** The number behind the blanks of a line. */
         private long numberOf(int line) {
-            int i = lines[line];
+            int i = lineAt(line);
             while (text.at(i) == ' ' || text.at(i) == '\t') {
                 i++;
             }
@@ -5612,8 +5654,8 @@ public final class TextShell {
             int status = takeAll(4);
             findLines();
             for (int i = 0; i < lineCount; i++) {
-                int end = lines[i + 1] - 1;
-                int start = lines[i];
+                int end = lineAt(i + 1) - 1;
+                int start = lineAt(i);
                 int stop = text.place(sign, start, end);
                 if (stop < end) {
                     for (long k = 1; k < field && start <= end; k++) {
@@ -5659,8 +5701,8 @@ public final class TextShell {
         }
 
         private boolean has(int line, Row sought) {
-            int last = lines[line + 1] - 1 - sought.length;
-            for (int at = lines[line]; at <= last; at++) {
+            int last = lineAt(line + 1) - 1 - sought.length;
+            for (int at = lineAt(line); at <= last; at++) {
                 int i = 0;
                 while (i < sought.length && text.at(at + i) == sought.at(i)) {
                     i++;
