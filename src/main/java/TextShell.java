@@ -82,6 +82,7 @@ public final class TextShell {
     private static final int LAST_STATUS = -4;
     private static final int OPTIONS = -5;
     private static final int ONE = -6;
+    private static final int NO_ID = -7;
     private static final int POSITION = -10;
     private static final int FAR_POSITION = 1000000;
 
@@ -2713,7 +2714,7 @@ public final class TextShell {
             } else if (isDigit(c)) {
                 pass(c);
                 parameter(flag, POSITION - (c - '0'));
-            } else if (beginsName(c) || special(c) != 0) {
+            } else if (beginsName(c) || special(c) != NO_ID) {
                 parameter(flag, spelledParameter());
             } else {
                 emit('$' | (quotes ? QUOTED : 0));
@@ -2746,7 +2747,7 @@ public final class TextShell {
             inner++;
         }
 
-        /** A parameter of one sign, or 0. */
+        /** A parameter of one sign, or NO_ID. */
         private static int special(int c) {
             switch (c) {
                 case '@':
@@ -2762,11 +2763,11 @@ public final class TextShell {
                 case '$':
                     return ONE;
                 default:
-                    return 0;
+                    return NO_ID;
             }
         }
 
-        /** The parameter that is spelled here (all its digits, or a whole name); 0 if none is. */
+        /** The parameter that is spelled here (all its digits, or a whole name); NO_ID if none is. */
         private int spelledParameter() {
             int c = look();
             spelled.length = 0;
@@ -2787,7 +2788,7 @@ public final class TextShell {
                 }
                 return POSITION - position;
             }
-            if (special(c) != 0) {
+            if (special(c) != NO_ID) {
                 pass(c);
             }
             return special(c);
@@ -2799,7 +2800,7 @@ public final class TextShell {
             int c = look();
             int id = spelledParameter();
             int next = look();
-            if (id == 0) {
+            if (id == NO_ID) {
                 noParameter(line, c);
             } else if (next == '}') {
                 closeBraces(flag, id);
@@ -2823,7 +2824,7 @@ public final class TextShell {
         /** Behind ${# and c, which is spelled as a parameter or not: its length, or an operator of # . */
         private void behindHash(int line, int flag, int c, int id) {
             int next = look();
-            if (id == 0) {
+            if (id == NO_ID) {
                 noParameter(line, c);
             } else if (next == '}') {
                 closeBraces(flag | LENGTH << FORM, id);
@@ -3142,14 +3143,12 @@ public final class TextShell {
             Stream in = open[0];
             Stream out = open[1];
             Stream from = in;
-            int before = status;
             Tree at = first;
             while (at != null && signal == GOING && deeper()) {
                 Row pipe = at == last ? null : new Row(16);
                 open[0] = from;
                 open[1] = pipe == null ? out : new Stream(pipe, null, false, MOST_PIPE);
-                status = before;
-                memory.enter(before);
+                memory.enter(status);
                 if (at.kind == SIMPLE) {
                     simple(at);
                 } else {

@@ -68,7 +68,10 @@ public final class RunTest {
         runs("echo a | cat | cat; false | true; echo $?; true | false; echo $?; ! true | true; echo $?; ! false; echo $?; ! exit 3; echo no", "a\n0\n1\n1\n0\n?3");
         runs("x=1 | x=2; echo .$x; echo a | read x; echo .$x; echo b | { read x; echo $x; }; (cd /; x=3) | cd /nowhere; echo $?", ".\n.\nb\n1\n?0");
         runs("echo a b | while read x y; do echo $y; z=$x; done; echo .$z; seq 3 5 | tail -n 1", "b\n.\n5\n?0");
-        runs("false; true | echo $?; (exit 4) | echo $?; echo $?", "1\n0\n0\n?0");
+        runs("false; true | echo $?; (exit 4) | echo $?; echo $?", "0\n4\n0\n?0");
+        runs("false; echo $? | { cat; echo $?; false; } | { cat; echo $?; exit 3; } | tr a $?; : | nothing | (echo $?)", "1\n0\n0\n127\n?0");
+        runs("false | echo \"$(echo $?; exit 5)$?\" | { cat; echo $?; }; (exit 6) | echo a > f$?; ls", "11\n0\nf6\n?0");
+        runs("exit 3 | case $? in 3) echo three;; esac; exit 2 & echo $?; false; { echo $?; exit 2; } & echo $?", "three\n0\n1\n0\n?0");
         runs("seq 1 5000 | wc -c; seq 1 4000 | tail -n 1", "16384\n" + tail() + "\n?0");
         runs("printf 'a\\nb\\nc\\n' > f; { cat | read x; read y; echo $y.; read z | cat; } < f; { read x | cat; read y; echo $y; } < f", ".\nb\n?0");
         runs("echo a >&2 | cat; { echo b >&2; } 2>&1 | tr b c; echo d | cat > f; cat f; f() { cat; }; echo e | f", "c\nd\ne\n[2]a\n?0");
