@@ -4109,7 +4109,8 @@ public final class TextShell {
                 return;
             }
             signs += length;
-            if (signs > MOST_SIGNS || form == EQUALS && !memory.assign(name, rowOf(start, top))) {
+            boolean refused = form == EQUALS && !memory.assign(name, rowOf(start, top));
+            if (refused || signs > MOST_SIGNS) {
                 shell.fail();
             }
         }
@@ -4286,28 +4287,30 @@ public final class TextShell {
             if (pattern) {
                 prepare(from, to);
             }
-            for (int i = 0; i < old && pathCount - old <= MOST_PATHS; i++) {
+            // No more paths are made than what shows that a bound is passed.
+            int length = 0;
+            for (int i = 0; i < old && pathCount - old <= MOST_PATHS && length <= MOST_PATH_SIGNS; i++) {
                 Node node = nodes[i];
                 if (name.length == 0) {
-                    addPath(paths[i], isFirst, name, isFirst ? memory.root : node, behind);
+                    length += addPath(paths[i], isFirst, name, isFirst ? memory.root : node, behind);
                 } else if (!pattern) {
-                    addPath(paths[i], isFirst, name, node.step(name, 0, name.length), behind);
+                    length += addPath(paths[i], isFirst, name, node.step(name, 0, name.length), behind);
                 } else {
-                    for (Node n = node.first; n != null && pathCount - old <= MOST_PATHS; n = n.next) {
+                    Node n = node.first;
+                    while (n != null && pathCount - old <= MOST_PATHS && length <= MOST_PATH_SIGNS) {
                         boolean hidden = n.name.at(0) == '.' && name.at(0) != '.';
                         walk(n.name, false);
                         if (!hidden && longest == n.name.length) {
-                            addPath(paths[i], isFirst, n.name, n, behind);
+                            length += addPath(paths[i], isFirst, n.name, n, behind);
                         }
+                        n = n.next;
                     }
                 }
             }
-            int length = 0;
             pathCount -= old;
             for (int i = 0; i < pathCount && old + i < paths.length && old + i < nodes.length; i++) {
                 paths[i] = paths[old + i];
                 nodes[i] = nodes[old + i];
-                length += paths[i].length;
             }
             if (pathCount > MOST_PATHS || length > MOST_PATH_SIGNS) {
                 shell.work += TOO_MANY_PATHS;
@@ -4317,9 +4320,10 @@ public final class TextShell {
             }
         }
 
-        private void addPath(Row ahead, boolean isFirst, Row name, Node node, boolean behind) {
+        /** A path comes to the others, if it leads to a directory where it must: how many signs it has, else 0. */
+        private int addPath(Row ahead, boolean isFirst, Row name, Node node, boolean behind) {
             if (node == null || behind && !node.isDirectory()) {
-                return;
+                return 0;
             }
             if (pathCount >= paths.length || pathCount >= nodes.length) {
                 Row[] rows = new Row[paths.length * 2];
@@ -4342,6 +4346,7 @@ public final class TextShell {
             paths[pathCount] = path;
             nodes[pathCount] = node;
             pathCount++;
+            return path.length;
         }
 
         /** The paths come nearly in order: each goes ahead of those behind it in the order of bytes. */
@@ -4793,6 +4798,8 @@ public final class TextShell {
 
         private void takeOperator(int operator) {
             if (operator >= BAD) {
+                // What stands whole ahead of the wrong sign was reckoned before that sign was met.
+                reduce(ASK);
                 wrong = true;
             } else if (operator == DONE) {
                 reduce(ASK);
@@ -5257,33 +5264,44 @@ public final class TextShell {
             return order < 0 && below || order == 0 && equal || order > 0 && above ? 0 : 1;
         }
 
+        /** The line is split as a whole before a name gets its part: IFS may be one of the names. */
         private int readNames() {
+            int start = firstName();
+            if (start < 0) {
+                return WRONG;
+            }
+            boolean whole = takeLine(start > 0);
+            Row[] parts = new Row[Math.max(0, words - start)];
+            int at = behindBlanks(0);
+            for (int i = 0; i < parts.length; i++) {
+                int end = i + 1 < parts.length ? endOfPart(at) : endOfLine(at);
+                parts[i] = signs(at, end);
+                at = behindBlanks(end);
+                if (end < text.length && kindAt(at) == Expander.OTHER) {
+                    at = behindBlanks(at + 1);
+                }
+            }
+            for (int i = 0; i < parts.length; i++) {
+                if (!memory.assign(memory.name(word(start + i)), parts[i])) {
+                    shell.fail();
+                    return WRONG;
+                }
+            }
+            return whole ? 0 : 1;
+        }
+
+        /** The first word behind -r, if words are left and all of them are names; else NONE. */
+        private int firstName() {
             int start = 0;
             while (start < words && word(start).is("-r")) {
                 start++;
             }
             for (int i = start; i < words; i++) {
                 if (!word(i).isName()) {
-                    return WRONG;
+                    return NONE;
                 }
             }
-            if (start >= words) {
-                return WRONG;
-            }
-            boolean whole = takeLine(start > 0);
-            int at = behindBlanks(0);
-            for (int i = start; i < words; i++) {
-                int end = i + 1 < words ? endOfPart(at) : endOfLine(at);
-                if (!memory.assign(memory.name(word(i)), signs(at, end))) {
-                    shell.fail();
-                    return WRONG;
-                }
-                at = behindBlanks(end);
-                if (end < text.length && kindAt(at) == Expander.OTHER) {
-                    at = behindBlanks(at + 1);
-                }
-            }
-            return whole ? 0 : 1;
+            return start < words ? start : NONE;
         }
 
         /** A line of the input, quoted signs with QUOTED: false at the end. */

@@ -179,6 +179,15 @@ public final class ExpandTest {
         }
         runs("n=1x; echo $((n=3)) $n; echo $((0 && (m=1)))$m; echo $((1 ? 5 : (m=1)))$m", "3 3\n0\n5\n?0");
         runs("readonly r=1; echo $((r)) $((0&&(r=2))); echo $((r=2)); echo no", "1 0\n?2");
+        // What stands whole ahead of the sign that is wrong is done; the rest isn't.
+        String[][] halves = {{"a=5 6", "5", null}, {"a=1+2, b=4", "3", null}, {"(a=1)+(b=2 $)", "1", "2"}, {"a=b=4)", "4", "4"}, {"1?a=2;b=3", "2", null},
+            {"a=1+", null, null}, {"a=1/0", null, null}, {"0?a=1;2", null, null}, {"a=2+b=3", "2", null}, {"a=1?b=2", null, "2"}, {"a=(b=3)/0", null, "3"}};
+        for (String[] half : halves) {
+            Session h = new Session();
+            Session.due(half[0], h.run("x='" + half[0] + "'; echo $(($x))"), "?2");
+            Session.due(half[0] + ": a", h.ask(0, "a"), half[1]);
+            Session.due(half[0] + ": b", h.ask(0, "b"), half[2]);
+        }
         runs("x='1+1'; echo $(($x)); echo $((x)); echo no", "2\n?2");
         runs("set -u; echo $((nothing+1))", "1\n?0");
         runs("echo $((" + times("(", 40) + "1" + times(")", 40) + "))", "1\n?0");

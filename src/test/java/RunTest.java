@@ -257,6 +257,9 @@ public final class RunTest {
         runs(x + "y=$x$x$x$x; : ${u-$y.}; echo no", "?2");
         runs(x + "y=$x$x$x$x; cat <<E > f; echo no\n$y\nE", "?2");
         runs(x + "y=$x$x$x; y=$y$(echo $x); echo ${#y}", "16384\n?0");
+        Session w = new Session();
+        Session.due("w has room, the word has not", w.run(x + ": a${u=$x$x$x$x}; echo no"), "?2");
+        Session.due("its value was given", w.ask(0, "u").length(), 16384);
         runs("set $(seq 1 1999); echo $#; set \"$@\" a; echo no", "1999\n?2");
         runs("for i in $(seq 1 2000); do :; done; echo $i; for i in $(seq 1 1000) $(seq 1 1001); do echo no; done; echo no", "2000\n?2");
         runs("set $(seq 1 1500); : \"$@\"; echo $#; : \"$@\" \"$@\"; echo no", "1500\n?2");

@@ -67,6 +67,8 @@ public final class ToolsTest {
         read("a b\nc d\n", "x=q read x; echo .$x; readonly r; read y r; echo no", ".\n?2");
         read("a\nb\nc\n", "while read x; do echo \"<$x>\"; done; read x; echo $?", "<a>\n<b>\n<c>\n1\n?0");
         read("a b\n", "read x x; echo $x", "b\n?0");
+        read("no end\n", "read IFS w; echo \"[$IFS][$w]\"", "[no][end]\n?0");
+        read("::a b: c\n", "IFS=:; read x IFS y; echo \"[$x][$IFS][$y]\"", "[][][a b: c]\n?0");
     }
 
     private static void aliases() {
