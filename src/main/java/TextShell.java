@@ -672,6 +672,8 @@ public final class TextShell {
         private Node here = root;
         private final Name separators;
         private final Name home;
+        // What is told where there is no word.
+        private final Row nothing = new Row(0);
 
         private Memory() {
             separators = name(row("IFS"));
@@ -3207,42 +3209,50 @@ public final class TextShell {
             }
             int n = expander.fieldTop - first;
             if (signal == GOING && redirect(c.words)) {
-                if (n > 0) {
-                    invoke(c.words, first, n);
-                } else if (assign(c.words, false)) {
-                    status = Math.max(0, substituted);
+                Name name = n > 0 ? memory.find(expander.field(first)) : null;
+                int own = lent;
+                if (assign(c.words, n > 0 && lends(name))) {
+                    if (n > 0) {
+                        invoke(name, first, n);
+                    } else {
+                        status = Math.max(0, substituted);
+                    }
                 }
+                giveBack(own);
             }
             restore(mark);
             expander.fieldTop = first;
             substituted = outer;
         }
 
-        /** The command of these fields runs. */
-        private void invoke(Tree elements, int first, int n) {
-            Name name = memory.find(expander.field(first));
+        private static boolean isSpecial(Name name) {
+            return name != null && name.command != 0 && name.command <= LAST_SPECIAL;
+        }
+
+        /** Whether assignments ahead of a command with this name are for it alone. */
+        private static boolean lends(Name name) {
+            return !isSpecial(name) && (name == null || name.function == null);
+        }
+
+        /** The command with this name (null if nothing has it) runs with the fields behind it. */
+        private void invoke(Name name, int first, int n) {
             int command = name == null ? 0 : name.command;
-            boolean isSpecial = command != 0 && command <= LAST_SPECIAL;
-            Tree function = name == null || isSpecial ? null : name.function;
-            int mark = lent;
-            if (assign(elements, !isSpecial && function == null)) {
-                if (command == C_EVAL || command == C_DOT) {
-                    further(command, first + 1, n - 1);
-                } else if (isSpecial) {
-                    special(command, first + 1, n - 1);
-                } else if (function != null) {
-                    call(function, first + 1, n - 1);
-                } else if (command != 0) {
-                    tools.begin(first + 1, n - 1);
-                    int result = command <= C_UNALIAS ? tools.work(command)
-                        : command <= C_SEQ ? tools.filter(command) : tools.files(command);
-                    status = signal == GOING ? result : status;
-                    writeAll(tools.made);
-                } else {
-                    status = 127;
-                }
+            Tree function = name == null ? null : name.function;
+            if (command == C_EVAL || command == C_DOT) {
+                further(command, first + 1, n - 1);
+            } else if (isSpecial(name)) {
+                special(command, first + 1, n - 1);
+            } else if (function != null) {
+                call(function, first + 1, n - 1);
+            } else if (command != 0) {
+                tools.begin(first + 1, n - 1);
+                int result = command <= C_UNALIAS ? tools.work(command)
+                    : command <= C_SEQ ? tools.filter(command) : tools.files(command);
+                status = signal == GOING ? result : status;
+                writeAll(tools.made);
+            } else {
+                status = 127;
             }
-            giveBack(mark);
         }
 
         /** Assignments are done; those for one command alone are lent. */
@@ -3894,7 +3904,7 @@ public final class TextShell {
         /** A field; one without signs where there is none. */
         private Row field(int i) {
             Row field = i >= 0 && i < fieldTop && i < fields.length ? fields[i] : null;
-            return field == null ? new Row(0) : field;
+            return field == null ? memory.nothing : field;
         }
 
         private void addField(Row row) {
