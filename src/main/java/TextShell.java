@@ -507,6 +507,14 @@ public final class TextShell {
             return part;
         }
 
+        /** The beginning of this row: the signs are those of both. */
+        private Row upTo(int end) {
+            Row beginning = new Row(0);
+            beginning.signs = signs;
+            beginning.length = Math.max(0, Math.min(end, length));
+            return beginning;
+        }
+
         private boolean same(Row other) {
             if (other == null || other.length != length) {
                 return false;
@@ -1193,7 +1201,8 @@ public final class TextShell {
         private boolean background;
         // Of a for: whether it has words of its own.
         private boolean in;
-        // Of a redirection: the number told, or NONE; of an assignment: where its value begins.
+        // Of a redirection: the number told, or NONE; of an assignment: where its value begins; of a body: how
+        // many things its redirection is within.
         private int number = NONE;
         // Elements of a simple command; redirections of a compound.
         private Tree words;
@@ -1691,14 +1700,14 @@ public final class TextShell {
             }
         }
 
-        /** The text from a place up to here, without newlines that vanished. */
-        private Row told(int from) {
+        /** A part of the text, without newlines that vanished. */
+        private Row told(int from, int to) {
             int length = 0;
-            for (int i = from; i < in.at; i++) {
+            for (int i = from; i < to; i++) {
                 length += in.data.at(i) > GONE_LINE ? 1 : 0;
             }
             Row told = new Row(length);
-            for (int i = from; i < in.at; i++) {
+            for (int i = from; i < to; i++) {
                 if (in.data.at(i) > GONE_LINE) {
                     told.add(in.data.at(i));
                 }
@@ -1830,8 +1839,9 @@ public final class TextShell {
 
         private void endWord(Frame f) {
             Tree w = new Tree(WORD);
-            w.told = told(f.from);
             w.code = cutCode(f.mark);
+            // A print never goes into a substitution's tree: there only names are looked at.
+            w.told = inner == 0 || isPlain(w) ? told(f.from, in.at) : memory.nothing;
             word = w;
             tokenLine = f.line;
             tokenFollows = f.has(FOLLOWS);
@@ -1866,7 +1876,8 @@ public final class TextShell {
 
         /** Whether the word is an alias, whose text then takes its place (or has no room). */
         private boolean replaced(boolean couldBeCommand) {
-            if (!couldBeCommand && !tokenFollows || in.aliases >= MOST_ALIASES || !isPlain(word)) {
+            boolean may = couldBeCommand || tokenFollows && reserved() == 0;
+            if (!may || in.aliases >= MOST_ALIASES || !isPlain(word)) {
                 return false;
             }
             Name name = memory.find(word.told);
@@ -1882,6 +1893,13 @@ public final class TextShell {
                 in = Stream.text(name.alias.part(0, name.alias.length), tokenLine, in, name);
             }
             return true;
+        }
+
+        /** The token can't be there, but an alias's text may take its place. */
+        private void outOfPlace() {
+            if (token != WORD_TOKEN || !replaced(false)) {
+                wrong();
+            }
         }
 
         // ---- grammar ----
@@ -1904,7 +1922,7 @@ public final class TextShell {
                     if (token == CLOSE) {
                         f.state = FUNCTION_BODY;
                     } else {
-                        wrong();
+                        outOfPlace();
                     }
                     break;
                 case FUNCTION_BODY:
@@ -2055,12 +2073,20 @@ public final class TextShell {
             if (value > 0) {
                 word.kind = ASSIGNMENT;
                 word.number = value;
-                word.name = memory.name(word.told.part(0, value - 1));
+                word.name = memory.name(nameOf(word, value - 1));
             } else {
                 f.flags |= HAS_WORD;
             }
             tilde(word, value);
             addElement(f, word);
+        }
+
+        private Row nameOf(Tree w, int end) {
+            spelled.length = 0;
+            for (int i = 0; i < end && i < w.code.length; i++) {
+                spelled.add(w.code[i]);
+            }
+            return spelled;
         }
 
         /** Where the value of an assignment begins, or 0. */
@@ -2102,8 +2128,8 @@ public final class TextShell {
                 if (reserved != 0 && closes(f, reserved)) {
                     endCommand(f);
                     closeByWord(f, reserved);
-                } else if (!replaced(false)) {
-                    wrong();
+                } else {
+                    outOfPlace();
                 }
             } else if (isRedirection(token)) {
                 redirection(f);
@@ -2140,6 +2166,9 @@ public final class TextShell {
                     fail(NO_DELIMITER, tokenLine);
                     return;
                 }
+                // What the body is within is told by where its operator stands, not by where its lines lie.
+                r.body = new Tree(BODY);
+                r.body.number = nested;
                 await(f.script, r);
             } else {
                 tilde(r, 0);
@@ -2177,8 +2206,8 @@ public final class TextShell {
                 newline(f);
             } else if (kind != 0) {
                 openCompound(f, kind);
-            } else if (token != WORD_TOKEN || reserved() != 0 || !replaced(false)) {
-                wrong();
+            } else {
+                outOfPlace();
             }
         }
 
@@ -2431,34 +2460,38 @@ public final class TextShell {
             readBody(r, f.script);
         }
 
+        /** The body's lines stay where they are: what goes of them is marked. */
         private void readBody(Tree r, Frame script) {
+            Tree body = r.body;
+            if (body == null) {
+                return;
+            }
             boolean asItIs = isQuoted(r);
             int line = in.line;
-            Row text = new Row(16);
-            for (int i = 0; i < STEPS; i++) {
-                if (in.at >= in.data.length) {
+            int from = in.at;
+            int end = from;
+            boolean found = false;
+            for (int i = 0; i < STEPS && !found; i++) {
+                end = in.at;
+                if (!passLine(asItIs, r.link == HERE_TABS)) {
                     fail(TOO_EARLY, in.line);
                     return;
                 }
-                int from = text.length;
-                readLine(text, asItIs, r.link == HERE_TABS);
-                if (isDelimiter(text, from, r)) {
-                    text.length = from;
-                    break;
-                }
-                text.add('\n');
+                found = isDelimiter(end, r);
             }
-            r.body = new Tree(BODY);
-            r.body.told = withoutMarks(text);
+            body.told = inner == 0 ? told(from, end) : null;
             if (asItIs) {
-                r.body.code = quoted(text);
+                body.code = quoted(from, end);
                 return;
             }
             Frame f = enter(F_BODY, 0, script);
-            f.command = r.body;
+            f.command = body;
             f.mark = codes;
             f.flags = IN_DOUBLE;
-            in = Stream.text(text, line, in, null);
+            f.section = nested;
+            nested = body.number;
+            in = Stream.text(in.data.upTo(end), line, in, null);
+            in.at = from;
         }
 
         private static boolean isQuoted(Tree r) {
@@ -2470,65 +2503,59 @@ public final class TextShell {
             return false;
         }
 
-        /** A line (one that is joined of several, if the body isn't taken as it is) comes to the text. */
-        private void readLine(Row text, boolean asItIs, boolean withoutTabs) {
+        /** Passes a line (one that is joined of several, if the body isn't taken as it is): false if none ends here. */
+        private boolean passLine(boolean asItIs, boolean withoutTabs) {
             boolean ahead = withoutTabs;
             int slashes = 0;
+            int slash = NONE;
             while (in.at < in.data.length) {
                 int c = in.data.at(in.at);
                 pass(c);
                 if (c == '\n' && !asItIs && slashes % 2 == 1) {
+                    in.data.change(slash, GONE);
                     in.data.change(in.at - 1, GONE_LINE);
-                    in.data.change(in.at - 2, GONE);
-                    text.length = Math.max(0, text.length - 1);
-                    text.add(GONE_LINE);
                     slashes = 0;
                 } else if (c == '\n') {
-                    return;
-                } else if (c == GONE_LINE) {
-                    text.add(c);
-                } else if (c != GONE && !(ahead && c == '\t')) {
+                    return true;
+                } else if (ahead && c == '\t') {
+                    in.data.change(in.at - 1, GONE);
+                } else if (c != GONE && c != GONE_LINE) {
                     ahead = ahead && c == '\\' && !asItIs && in.data.at(in.at) == '\n';
                     slashes = c == '\\' ? slashes + 1 : 0;
-                    text.add(c);
+                    slash = in.at - 1;
                 }
             }
+            return false;
         }
 
-        private static boolean isDelimiter(Row text, int from, Tree r) {
-            int at = from;
+        /** Whether the line that was passed is the word of a here-document, without its quotes. */
+        private boolean isDelimiter(int start, Tree r) {
+            int at = start;
             for (int i = 0; i < r.code.length; i++) {
                 if (r.code[i] != MARK) {
-                    while (text.at(at) == GONE_LINE) {
-                        at++;
-                    }
-                    if (text.at(at) != (r.code[i] & SIGN)) {
+                    at = behindMarks(at);
+                    if (in.data.at(at) != (r.code[i] & SIGN)) {
                         return false;
                     }
                     at++;
                 }
             }
-            while (text.at(at) == GONE_LINE) {
-                at++;
-            }
-            return at >= text.length;
+            return behindMarks(at) == in.at - 1;
         }
 
-        private static Row withoutMarks(Row text) {
-            Row kept = new Row(text.length);
-            for (int i = 0; i < text.length; i++) {
-                if (text.at(i) > GONE_LINE) {
-                    kept.add(text.at(i));
-                }
+        private int behindMarks(int at) {
+            int i = at;
+            while (in.data.at(i) == GONE || in.data.at(i) == GONE_LINE) {
+                i++;
             }
-            return kept;
+            return i;
         }
 
-        private int[] quoted(Row text) {
+        private int[] quoted(int from, int to) {
             int mark = codes;
-            for (int i = 0; i < text.length; i++) {
-                if (text.at(i) > GONE_LINE) {
-                    emit(text.at(i) | QUOTED);
+            for (int i = from; i < to; i++) {
+                if (in.data.at(i) > GONE_LINE) {
+                    emit(in.data.at(i) | QUOTED);
                 }
             }
             return cutCode(mark);
@@ -2695,6 +2722,7 @@ public final class TextShell {
 
         private void endBody(Frame f) {
             f.command.code = cutCode(f.mark);
+            nested = f.section;
             in = in.under;
             depth--;
         }
@@ -3894,9 +3922,9 @@ public final class TextShell {
             return row;
         }
 
-        /** What a word came to, taken off the stack. */
+        /** What a word came to, taken off the stack; nothing of one that was left. */
         private Row cut(int start) {
-            Row row = rowOf(start, top);
+            Row row = shell.signal == Shell.GOING ? rowOf(start, top) : memory.nothing;
             top = start;
             return row;
         }
@@ -4961,6 +4989,13 @@ public final class TextShell {
     private static final class Tools {
         private static final int WRONG = 2;
         private static final int MOST_NUMBERS = 10000;
+        // Of a walk over what a word of tr tells: the place in the word, the next and the last sign of an open
+        // range, the sign behind it. Three signs of a word tell 118 at most.
+        private static final int PLACE = 0;
+        private static final int NEXT = 1;
+        private static final int LAST = 2;
+        private static final int BEHIND = 3;
+        private static final int MOST_SPELLED = 1000000;
         private final Memory memory;
         private final Shell shell;
         private final Expander expander;
@@ -4973,8 +5008,10 @@ public final class TextShell {
         private int[] spare = new int[64];
         private int lineCount;
         private final Row from = new Row(32);
-        private final Row to = new Row(32);
         private final int[] table = new int[256];
+        private final boolean[] known = new boolean[256];
+        private final int[] walkA = new int[4];
+        private final int[] walkB = new int[4];
         // The words behind the command's name.
         private int first;
         private int words;
@@ -5609,20 +5646,10 @@ public final class TextShell {
             if (words != 2) {
                 return WRONG;
             }
-            spell(word(deletes ? 1 : 0), from);
-            to.length = 0;
-            if (!deletes) {
-                spell(word(1), to);
-                if (to.length == 0) {
-                    return WRONG;
-                }
+            if (!deletes && word(1).length == 0) {
+                return WRONG;
             }
-            for (int i = 0; i < table.length; i++) {
-                table[i] = i;
-            }
-            for (int i = from.length - 1; i >= 0; i--) {
-                table[from.at(i) & SIGN] = deletes ? NONE : to.at(Math.min(i, to.length - 1));
-            }
+            spellTable(word(deletes ? 1 : 0), deletes ? null : word(1));
             takeAll(words);
             for (int i = 0; i < text.length; i++) {
                 int c = table[text.at(i) & SIGN];
@@ -5633,29 +5660,61 @@ public final class TextShell {
             return 0;
         }
 
-        /** The signs that a word of tr tells, with its ranges and its \n \t \\ . */
-        private static void spell(Row word, Row signs) {
-            signs.length = 0;
-            int i = 0;
-            while (i < word.length) {
-                int low = spelled(word, i);
-                i += width(word, i);
-                if (word.at(i) == '-' && i + 1 < word.length && spelled(word, i + 1) >= low) {
-                    int high = spelled(word, i + 1);
-                    i += 1 + width(word, i + 1);
-                    for (int c = low; c <= high; c++) {
-                        signs.add(c);
-                    }
-                } else if (word.at(i) == '-' && i + 1 < word.length) {
-                    int high = spelled(word, i + 1);
-                    i += 1 + width(word, i + 1);
-                    signs.add(low);
-                    signs.add('-');
-                    signs.add(high);
-                } else {
-                    signs.add(low);
-                }
+        /** What becomes of each sign: the one at the same place of b, or b's last one; NONE without b. */
+        private void spellTable(Row a, Row b) {
+            for (int i = 0; i < table.length; i++) {
+                table[i] = i;
+                known[i] = false;
             }
+            startSpelling(walkA);
+            startSpelling(walkB);
+            int becomes = NONE;
+            int c = spellNext(a, walkA);
+            for (int i = 0; i < MOST_SPELLED && c != NONE; i++) {
+                int next = b == null ? NONE : spellNext(b, walkB);
+                becomes = next == NONE ? becomes : next;
+                if (!known[c & SIGN]) {
+                    known[c & SIGN] = true;
+                    table[c & SIGN] = becomes;
+                }
+                c = spellNext(a, walkA);
+            }
+        }
+
+        private static void startSpelling(int[] walk) {
+            walk[PLACE] = 0;
+            walk[NEXT] = 1;
+            walk[LAST] = 0;
+            walk[BEHIND] = NONE;
+        }
+
+        /** The next sign that a word of tr tells, with its ranges and its \n \t \\ ; NONE behind the last one. */
+        private static int spellNext(Row word, int[] walk) {
+            if (walk[NEXT] <= walk[LAST]) {
+                walk[NEXT]++;
+                return walk[NEXT] - 1;
+            }
+            if (walk[BEHIND] != NONE) {
+                int behind = walk[BEHIND];
+                walk[BEHIND] = NONE;
+                return behind;
+            }
+            int i = walk[PLACE];
+            if (i >= word.length) {
+                return NONE;
+            }
+            int low = spelled(word, i);
+            i += width(word, i);
+            if (word.at(i) == '-' && i + 1 < word.length) {
+                int high = spelled(word, i + 1);
+                boolean falls = high < low;
+                walk[NEXT] = falls ? '-' : low + 1;
+                walk[LAST] = falls ? '-' : high;
+                walk[BEHIND] = falls ? high : NONE;
+                i += 1 + width(word, i + 1);
+            }
+            walk[PLACE] = i;
+            return low;
         }
 
         private static int width(Row word, int i) {

@@ -414,8 +414,73 @@ public final class ReadTest {
         Session.due("`..` of an alias", s.shell.count(14), 16 + 1 + 16 + 11 + 16 + 4 + 16 + 1);
         Session u = aliased("for", "echo for", "x", "y", "do", "no", "l", "for ", "in", "no2", "e", "echo ");
         alias(u, "l x in x; do x; done", "for y in x\ndo\ny\ndone\n");
-        alias(u, "e in do", "echo no2 do\n");
-        alias(u, "e do", "echo no\n");
+        alias(u, "e in do", "echo in do\n");
+        alias(u, "e do", "echo do\n");
+        alias(u, "z=1 do", "z=1 no\n");
+        behindAliases();
+    }
+
+    /** Words that follow an alias whose text ends with a blank: reserved ones stay, the others have a text, wherever they stand. */
+    private static void behindAliases() {
+        Session s = aliased("do", "no", "in", "no", "x", "y", "r", "echo > ", "f", "for v in ", "c", "case ", "p", "case a in ", "b", "{ z; } ",
+            "g", "fn ( ", "h", "fn ( ) ", "s", ")", "t", "(", "o", "; do", "n", "for ");
+        alias(s, "r do", "echo > do\n");
+        alias(s, "r x", "echo > y\n");
+        alias(s, "f do x; do x; done", "for v in do x\ndo\ny\ndone\n");
+        alias(s, "f x do; do x; done", "for v in y do\ndo\ny\ndone\n");
+        alias(s, "n do; do x; done", "for do\ndo\ny\ndone\n");
+        alias(s, "c do in do) x;; esac", "case do in\n(do)\ny\n;;\nesac\n");
+        alias(s, "p do) x;; esac", "case a in\n(do)\ny\n;;\nesac\n");
+        alias(s, "p x) x;; esac", "case a in\n(y)\ny\n;;\nesac\n");
+        alias(s, "b do", "fault 1 line 1");
+        alias(s, "b o", "fault 1 line 1");
+        alias(s, "g s { x; }", "fn() {\ny\n}\n");
+        alias(s, "g s", "fault 2 line 2");
+        alias(s, "g x", "fault 1 line 1");
+        alias(s, "g do", "fault 1 line 1");
+        alias(s, "h t x )", "fn() (\ny\n)\n");
+        alias(s, "h do", "fault 1 line 1");
+        alias(s, "f ( s { x; }", "fault 1 line 1");
+    }
+
+    /** What a body is within is told by where its operator stands. */
+    private static void bodiesWithin() {
+        String x40 = times("{ ", 40);
+        String y40 = times("}; ", 40);
+        faults(x40 + "cat <<E; " + y40 + "\n${x}\nE\n", 4, 2);
+        faults(x40 + "cat <<E; " + y40 + "\nx\n`x`\nE\n", 4, 3);
+        faults(x40 + "cat; } <<E; " + times("}; ", 39) + "\n${x}\nE\n", 0, 0);
+        faults("cat <<E; " + x40 + "\n${x}\nE\necho; " + y40, 0, 0);
+        faults("cat <<E; " + x40 + "\n" + times("${x-", 40) + times("}", 40) + "\nE\necho; " + y40, 0, 0);
+        faults("cat <<E; " + x40 + "\n" + times("${x-", 41) + times("}", 41) + "\nE\necho; " + y40, 4, 2);
+        faults("cat <<E; " + x40 + "\n${x}\nE\necho ${x}; " + y40, 4, 4);
+        faults("{ cat <<E; " + times("{ ", 39) + "cat <<F\n" + times("${x-", 39) + times("}", 39) + "\nE\n${x}\nF\n" + y40, 4, 4);
+        String nested = x40 + "cat <<E\nx\nE\n" + y40;
+        Session s = new Session();
+        faults(nested, 0, 0);
+        s.read(nested);
+        String print = s.print();
+        Session.due("its print", s.read(print), 0);
+        Session.due("the print of its print", s.print(), print);
+    }
+
+    /** A line that ends with \\ is joined with the next one, which must be there. */
+    private static void joinedLines() {
+        faults("cat <<E\nE\\\n", 2, 3);
+        faults("cat <<E\nE\\", 2, 3);
+        faults("cat <<E\nx\nE\\\n", 2, 4);
+        faults("cat <<E\n\\\n\\\n", 2, 4);
+        faults("cat <<E\nE\\\n\n", 0, 0);
+        faults("cat <<E\n\\\nE\n", 0, 0);
+        faults("cat <<E\nE\\\\\n", 2, 3);
+        faults("cat <<'E'\nE\\\n", 2, 3);
+        faults("cat <<'E\\'\nE\\\n", 0, 0);
+        faults("cat <<-E\n\t\\\n\tE\n", 0, 0);
+        faults("cat <<-E\n\\\n\tE\\\n", 2, 4);
+        faults("echo `cat <<E\nE\\\\\n`", 2, 3);
+        prints("cat <<-E\n\ta\\\n\tb\n\t\tE\n", "cat <<- E\na\tb\nE\n");
+        prints("cat <<E\na\\\\\nb\\\\\\\nc\nE\n", "cat << E\na\\\\\nb\\\\c\nE\n");
+        prints("cat <<E\n$(cat <<F\na\\\nb\n\\\nF\n)\nE\n", "cat << E\n$(cat <<F\nab\nF\n)\nE\n");
     }
 
     private static void asTheyWere() {
@@ -438,6 +503,8 @@ public final class ReadTest {
         hereDocuments();
         aliases();
         aliasesWithin();
+        bodiesWithin();
+        joinedLines();
         asTheyWere();
         Session.end();
     }

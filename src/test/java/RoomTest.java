@@ -26,6 +26,7 @@ public final class RoomTest {
         + "    static void made(int fields) { objects++; elements += fields; }\n"
         + "    static char[] made(char[] a) { made(a.length); return a; }\n"
         + "    static int[] made(int[] a) { made(a.length); return a; }\n"
+        + "    static boolean[] made(boolean[] a) { made(a.length); return a; }\n"
         + "    static long[] made(long[] a) { made(a.length); return a; }\n"
         + "    static <T> T[] made(T[] a) { made(a.length); return a; }\n}\n";
     private static Class<?> shellClass;
@@ -163,9 +164,33 @@ public final class RoomTest {
         holds("long paths beyond the bound", true, many + far + "while :; do ( : $x*/../*/../* ); done; echo a", "echo a");
         holds("long names", true, "n=" + times("n", 58) + "; mkdir $n $n/$n $n/$n/$n; cd $n/$n/$n; for i in " + times("a ", 14) + "; do d=${d}1; mkdir $n$d; cd $n$d; done; cd /; "
             + "while :; do ( : $n/$n/$n*/*/*/*/*/*/*/*/*/*/*/*/*/* ); done");
+        holds("words that are left", true, "y=" + times("y", 500) + "; y=$y$y$y$y$y$y$y$y; y=$y$y$y$y; "
+            + "while :; do (x=$y$y); (: >$y$y); (: $(($y$y))); (case $y$y in a) ;; esac); (: $y$y); done");
+        holds("a body in a body", true, bodies(36, 5000), bodies(36, 5000), bodies(36, 5000), bodies(36, 5000), bodies(36, 5000), bodies(36, 5000), bodies(36, 5000));
+        holds("words in words", true, words(38, 5000), words(38, 5000), words(38, 5000), words(38, 5000), words(38, 5000), words(38, 5000), words(38, 5000));
+        holds("long words of tr", true, "y=$(printf '\\t-~'); y=$y$y$y$y$y$y$y$y$y$y$y$y$y; y=$y$y$y$y$y$y$y; y=$y$y$y$y$y; "
+            + "y=$y$y$y$y$y$y$y$y$y$y$y$y; while :; do echo abc | tr \"$y\" \"$y\"; done");
+        Session.due("long words of tr: elements " + counted("elements"), counted("elements") < 500000, true);
         holds("lines", true, "while :; do seq 1 200 | sort -r | uniq -c | tail -n 3; done");
         holds("reads", true, "while :; do read a b c d e f g h i j k l m n; done");
         holds("subshells", true, "while :; do (x=1; y=2; set a b c; f() { :; }); done");
+    }
+
+    /** A here-document in the body of one in that of another, with so many bytes in the innermost. */
+    private static String bodies(int n, int bytes) {
+        StringBuilder text = new StringBuilder();
+        for (int i = 0; i < n; i++) {
+            text.append(i == 0 ? "" : "$(").append("cat <<E").append(i).append('\n');
+        }
+        text.append(times("0123456789", bytes / 10)).append('\n');
+        for (int i = n - 1; i >= 0; i--) {
+            text.append('E').append(i).append('\n').append(i == 0 ? "" : ")\n");
+        }
+        return text.toString();
+    }
+
+    private static String words(int n, int bytes) {
+        return nested("echo $(", "echo " + times("0123456789", bytes / 10), ")", n);
     }
 
     public static void main(String[] args) throws Exception {

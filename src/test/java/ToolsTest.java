@@ -115,6 +115,72 @@ public final class ToolsTest {
         runs("seq 1 10000 | tail -n 0; echo $?; seq -1 9999; echo $?", "0\n2\n?0");
     }
 
+    private static int unit(String word, int i) {
+        return word.startsWith("\\n", i) || word.startsWith("\\t", i) || word.startsWith("\\\\", i) ? 2 : 1;
+    }
+
+    private static char sign(String word, int i) {
+        return unit(word, i) == 1 ? word.charAt(i) : word.charAt(i + 1) == 'n' ? '\n' : word.charAt(i + 1) == 't' ? '\t' : '\\';
+    }
+
+    /** All signs that a word of tr tells. */
+    private static String spelled(String word) {
+        StringBuilder all = new StringBuilder();
+        int i = 0;
+        while (i < word.length()) {
+            char low = sign(word, i);
+            i += unit(word, i);
+            if (i + 1 < word.length() && word.charAt(i) == '-') {
+                char high = sign(word, i + 1);
+                i += 1 + unit(word, i + 1);
+                for (char c = low; c <= high; c++) {
+                    all.append(c);
+                }
+                all.append(high < low ? low + "-" + high : "");
+            } else {
+                all.append(low);
+            }
+        }
+        return all.toString();
+    }
+
+    /** Words of tr that are spelled out in full by this test, and as they come by the class. */
+    private static void wordsOfTr() {
+        String signs = "abcdz-\\nt -";
+        String text = "abcdefyz-\\\t n!t\n";
+        int seed = 1;
+        for (int round = 0; round < 400; round++) {
+            StringBuilder[] words = {new StringBuilder(), new StringBuilder()};
+            for (int i = 0; i < 14; i++) {
+                seed = seed * 1103515245 + 12345;
+                words[i & 1].append(signs.charAt((seed >>> 16) % signs.length()));
+            }
+            String a = words[0].substring(round % 6);
+            String b = words[1].substring(round % 7);
+            StringBuilder due = new StringBuilder();
+            StringBuilder left = new StringBuilder();
+            for (char c : text.toCharArray()) {
+                int at = spelled(a).indexOf(c);
+                String to = spelled(b);
+                due.append(at < 0 ? c : to.charAt(Math.min(at, to.length() - 1)));
+                left.append(at < 0 ? String.valueOf(c) : "");
+            }
+            Session s = new Session();
+            s.put(1, "/f", text);
+            s.put(0, "a", a);
+            s.put(0, "b", b);
+            boolean option = a.equals("-d");
+            runsOn(s, "tr \"$a\" \"$b\" < /f", option ? null : due + "?0");
+            runsOn(s, "tr -d \"$a\" < /f", left + "?0");
+        }
+    }
+
+    private static void runsOn(Session s, String script, String want) {
+        if (want != null) {
+            Session.due(script, s.run(script), want);
+        }
+    }
+
     private static void files() {
         runs("mkdir d d/e; > d/.h; > d/b; > d/B; ls d; ls; ls d/b; ls d/e; ls -l; echo $?; ls d d; echo $?; ls nope; echo $?; cd d; ls ..; ls ./b; ls b/; echo $?; ls ''; echo $?", ".h\nB\nb\ne\nd\nd/b\n1\n2\n1\nd\n./b\n1\n1\n?0");
         runs("mkdir; echo $?; mkdir a a/b c/d a e; echo $?; ls; ls a; mkdir f/; echo $?; mkdir a/; echo $?; mkdir .; echo $?; mkdir ''; echo $?; mkdir /; echo $?; mkdir a/..; echo $?; > g; mkdir g; echo $?; mkdir g/h; echo $?; mkdir -p x; echo $?; ls",
@@ -142,6 +208,7 @@ public final class ToolsTest {
         aliases();
         texts();
         signs();
+        wordsOfTr();
         files();
         Session.end();
     }
