@@ -1471,9 +1471,11 @@ public final class TextShell {
         private static final int MOST_ALIASES = 10;
         private static final int STEPS = 10000000;
 
-        // Newlines that vanished are kept as these two, so that lines can still be counted.
+        // Newlines that vanished are kept as the first two, so that lines can still be counted; tabs that went
+        // from a body as the third: a word in which the here-document stands is printed with them.
         private static final int GONE = 0;
         private static final int GONE_LINE = 1;
+        private static final int GONE_TAB = 2;
 
         private static final int TOO_EARLY = 2;
         private static final int NO_PARAMETER = 3;
@@ -1669,7 +1671,7 @@ public final class TextShell {
             Row data = in.data;
             while (in.at < data.length) {
                 int c = data.at(in.at);
-                if (c == GONE || c == GONE_LINE) {
+                if (c <= GONE_TAB) {
                     pass(c);
                 } else if (c == '\\' && data.at(in.at + 1) == '\n') {
                     data.change(in.at, GONE);
@@ -1685,7 +1687,7 @@ public final class TextShell {
         private int lookRaw() {
             while (in.at < in.data.length) {
                 int c = in.data.at(in.at);
-                if (c != GONE && c != GONE_LINE) {
+                if (c > GONE_TAB) {
                     return c;
                 }
                 pass(c);
@@ -1700,16 +1702,18 @@ public final class TextShell {
             }
         }
 
-        /** A part of the text, without newlines that vanished. */
-        private Row told(int from, int to) {
+        /** A part of the text, without newlines that vanished; with tabs that went, or without. */
+        private Row told(int from, int to, boolean tabs) {
+            int least = tabs ? GONE_TAB : GONE_TAB + 1;
             int length = 0;
             for (int i = from; i < to; i++) {
-                length += in.data.at(i) > GONE_LINE ? 1 : 0;
+                length += in.data.at(i) >= least ? 1 : 0;
             }
             Row told = new Row(length);
             for (int i = from; i < to; i++) {
-                if (in.data.at(i) > GONE_LINE) {
-                    told.add(in.data.at(i));
+                int c = in.data.at(i);
+                if (c >= least) {
+                    told.add(c == GONE_TAB ? '\t' : c);
                 }
             }
             return told;
@@ -1841,7 +1845,7 @@ public final class TextShell {
             Tree w = new Tree(WORD);
             w.code = cutCode(f.mark);
             // A print never goes into a substitution's tree: there only names are looked at.
-            w.told = inner == 0 || isPlain(w) ? told(f.from, in.at) : memory.nothing;
+            w.told = inner == 0 || isPlain(w) ? told(f.from, in.at, true) : memory.nothing;
             word = w;
             tokenLine = f.line;
             tokenFollows = f.has(FOLLOWS);
@@ -2479,7 +2483,7 @@ public final class TextShell {
                 }
                 found = isDelimiter(end, r);
             }
-            body.told = inner == 0 ? told(from, end) : null;
+            body.told = inner == 0 ? told(from, end, false) : null;
             if (asItIs) {
                 body.code = quoted(from, end);
                 return;
@@ -2518,8 +2522,8 @@ public final class TextShell {
                 } else if (c == '\n') {
                     return true;
                 } else if (ahead && c == '\t') {
-                    in.data.change(in.at - 1, GONE);
-                } else if (c != GONE && c != GONE_LINE) {
+                    in.data.change(in.at - 1, GONE_TAB);
+                } else if (c > GONE_TAB) {
                     ahead = ahead && c == '\\' && !asItIs && in.data.at(in.at) == '\n';
                     slashes = c == '\\' ? slashes + 1 : 0;
                     slash = in.at - 1;
@@ -2545,7 +2549,7 @@ public final class TextShell {
 
         private int behindMarks(int at) {
             int i = at;
-            while (in.data.at(i) == GONE || in.data.at(i) == GONE_LINE) {
+            while (in.data.at(i) >= 0 && in.data.at(i) <= GONE_TAB) {
                 i++;
             }
             return i;
@@ -2554,7 +2558,7 @@ public final class TextShell {
         private int[] quoted(int from, int to) {
             int mark = codes;
             for (int i = from; i < to; i++) {
-                if (in.data.at(i) > GONE_LINE) {
+                if (in.data.at(i) > GONE_TAB) {
                     emit(in.data.at(i) | QUOTED);
                 }
             }

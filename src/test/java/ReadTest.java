@@ -480,6 +480,11 @@ public final class ReadTest {
         faults("echo `cat <<E\nE\\\\\n`", 2, 3);
         prints("cat <<-E\n\ta\\\n\tb\n\t\tE\n", "cat <<- E\na\tb\nE\n");
         prints("cat <<E\na\\\\\nb\\\\\\\nc\nE\n", "cat << E\na\\\\\nb\\\\c\nE\n");
+        prints("echo \"$(cat <<-E\n\ta\n\t\tE\n)\"\n", "echo \"$(cat <<-E\n\ta\n\t\tE\n)\"\n");
+        prints("cat <<-E\n\t$(cat <<-F\n\t\ta\tb\n\tF\n)\n\tE\n", "cat <<- E\n$(cat <<-F\na\tb\nF\n)\nE\n");
+        prints("cat <<E\n$(cat <<-F\n\ta\n\tF\n)\nE\n", "cat << E\n$(cat <<-F\n\ta\n\tF\n)\nE\n");
+        prints("cat <<-'E'\n\ta\\\n\tb\n\tE\n", "cat <<- 'E'\na\\\nb\nE\n");
+        Session.runs("x=$(cat <<-E\n\ta\tb\n\tE\n); echo \"$x\"", "a\tb\n?0");
         prints("cat <<E\n$(cat <<F\na\\\nb\n\\\nF\n)\nE\n", "cat << E\n$(cat <<F\nab\nF\n)\nE\n");
     }
 
