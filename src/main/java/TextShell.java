@@ -680,7 +680,7 @@ public final class TextShell {
         private Node here = root;
         private final Name separators;
         private final Name home;
-        // What is told where there is no word.
+        // A row without signs: never changed.
         private final Row nothing = new Row(0);
 
         private Memory() {
@@ -951,6 +951,9 @@ public final class TextShell {
         private final Node root;
         private final Row data;
         private boolean gone;
+        // The part of a pattern of path names for which it was looked at last, and whether it fitted.
+        private int part;
+        private boolean fits;
         // Of the root: what there is in all.
         private int files;
         private int directories = 1;
@@ -3864,6 +3867,8 @@ public final class TextShell {
         private Row[] paths = new Row[64];
         private Node[] nodes = new Node[64];
         private int pathCount;
+        // How many parts of path names were patterns so far.
+        private int part;
 
         private Expander(Memory memory, Reader reader, Shell shell) {
             this.memory = memory;
@@ -3916,6 +3921,9 @@ public final class TextShell {
             int length = 0;
             for (int i = from; i < to && i < items.length; i++) {
                 length += isSign(items[i]) ? 1 : 0;
+            }
+            if (length == 0) {
+                return memory.nothing;
             }
             Row row = new Row(length);
             for (int i = from; i < to && i < items.length; i++) {
@@ -4328,6 +4336,7 @@ public final class TextShell {
             Row name = rowOf(from, to);
             if (pattern) {
                 prepare(from, to);
+                part++;
             }
             // No more paths are made than what shows that a bound is passed.
             int length = 0;
@@ -4341,8 +4350,7 @@ public final class TextShell {
                     Node n = node.first;
                     while (n != null && pathCount - old <= MOST_PATHS && length <= MOST_PATH_SIGNS) {
                         boolean hidden = n.name.at(0) == '.' && name.at(0) != '.';
-                        walk(n.name, false);
-                        if (!hidden && longest == n.name.length) {
+                        if (!hidden && fitsPart(n)) {
                             length += addPath(paths[i], isFirst, n.name, n, behind);
                         }
                         n = n.next;
@@ -4360,6 +4368,16 @@ public final class TextShell {
             } else {
                 shell.work += 8 * pathCount + length;
             }
+        }
+
+        /** Whether a name fits the part: many paths may lead to it, it is looked at once. */
+        private boolean fitsPart(Node n) {
+            if (n.part != part) {
+                walk(n.name, false);
+                n.part = part;
+                n.fits = longest == n.name.length;
+            }
+            return n.fits;
         }
 
         /** A path comes to the others, if it leads to a directory where it must: how many signs it has, else 0. */

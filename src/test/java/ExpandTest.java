@@ -138,6 +138,15 @@ public final class ExpandTest {
         runs("cd /; mkdir d; touch d/a; cd d; echo * ../*/a", "a ../d/a\n?0");
     }
 
+    /** Nearly a thousand paths lead to the same names: a name is matched once, or this would take minutes. */
+    private static void manyNames() {
+        String names = "for i in 1 2 3; do for j in 1 2 3 4 5 6 7 8 9 0; do mkdir d$i$j; done; done; for i in 1 2 3 4 5 6 7 8 9; do for j in 1 2 3 4 5 6 7 8 9; do "
+            + "for k in 1 2 3; do > $i$j${k}aaaaaaaaaaaaaaaaaaaaaaaaaaaaaaaaaaaaaaaaaaaaaaaaaaaaaaa; done; done; done; ";
+        runs(names + "q=????????????????????; q=$q$q$q$q$q$q$q$q$q$q; q=$q$q$q$q$q$q$q$q$q$q; echo */../*/../$q | wc -c", "2011\n?0");
+        runs(names + "q=abababababababababab; q=$q$q$q$q$q$q$q$q$q$q; q=$q$q$q$q$q$q$q$q$q$q; echo */../*/../*[$q$q]*b | wc -c; echo */../1*[$q]?? | wc -w; echo */../d1[1-3] | wc -w",
+            "4016\n810\n90\n?0");
+    }
+
     private static void patterns() {
         String[][] fitting = {{"abc", "abc"}, {"abc", "a*"}, {"abc", "*c"}, {"abc", "*"}, {"", "*"}, {"", "''"}, {"abc", "a?c"}, {"abc", "?*?"},
             {"abc", "*b*"}, {"aXbXc", "a*X*c"}, {"a", "[abc]"}, {"b", "[a-c]"}, {"d", "[!a-c]"}, {"]", "[]]"}, {"a", "[!]]"}, {"-", "[a-]"},
@@ -236,6 +245,7 @@ public final class ExpandTest {
         tildes();
         splitting();
         pathNames();
+        manyNames();
         patterns();
         sums();
         hereDocuments();
