@@ -143,8 +143,8 @@ public final class ExpandTest {
         String names = "for i in 1 2 3; do for j in 1 2 3 4 5 6 7 8 9 0; do mkdir d$i$j; done; done; for i in 1 2 3 4 5 6 7 8 9; do for j in 1 2 3 4 5 6 7 8 9; do "
             + "for k in 1 2 3; do > $i$j${k}aaaaaaaaaaaaaaaaaaaaaaaaaaaaaaaaaaaaaaaaaaaaaaaaaaaaaaa; done; done; done; ";
         runs(names + "q=????????????????????; q=$q$q$q$q$q$q$q$q$q$q; q=$q$q$q$q$q$q$q$q$q$q; echo */../*/../$q | wc -c", "2011\n?0");
-        runs(names + "q=abababababababababab; q=$q$q$q$q$q$q$q$q$q$q; q=$q$q$q$q$q$q$q$q$q$q; echo */../*/../*[$q$q]*b | wc -c; echo */../1*[$q]?? | wc -w; echo */../d1[1-3] | wc -w",
-            "4016\n810\n90\n?0");
+        runs(names + "q=abababababababababab; q=$q$q$q$q$q$q$q$q$q$q; q=$q$q$q$q$q$q$q$q$q$q; echo */../*/../*[$q$q]*b | wc -c", "4016\n?0");
+        runs(names + "echo */../11*[ab]?? | wc -w; echo */../d1[1-3] | wc -w; echo */../11* */../12* | wc -w", "90\n90\n180\n?0");
     }
 
     private static void patterns() {
