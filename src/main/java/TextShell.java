@@ -660,6 +660,8 @@ public final class TextShell {
         private static final int DEEPEST = 64;
         private static final int SAVED = 8;
         private final Name[] buckets = new Name[BUCKETS];
+        // That of the name that was sought last.
+        private int bucket;
         private Name[] names = new Name[128];
         private int size;
         private Name[] log = new Name[16];
@@ -765,16 +767,13 @@ public final class TextShell {
             command("mv", C_MV);
         }
 
-        private static int bucket(Row text) {
+        private Name find(Row text) {
             int hash = 0;
             for (int i = 0; i < text.length && i < text.signs.length; i++) {
                 hash = hash * 31 + text.signs[i];
             }
-            return hash & BUCKETS - 1;
-        }
-
-        private Name find(Row text) {
-            for (Name n = buckets[bucket(text)]; n != null; n = n.next) {
+            bucket = hash & BUCKETS - 1;
+            for (Name n = buckets[bucket]; n != null; n = n.next) {
                 if (n.text.same(text)) {
                     return n;
                 }
@@ -796,7 +795,6 @@ public final class TextShell {
                 names = more;
             }
             Name made = new Name(text.part(0, text.length), size);
-            int bucket = bucket(text);
             made.next = buckets[bucket];
             buckets[bucket] = made;
             names[size] = made;
@@ -1551,6 +1549,8 @@ public final class TextShell {
         private int token;
         private int tokenLine;
         private boolean tokenFollows;
+        // Which reserved word the token would be, or 0.
+        private int reserved;
         private Tree word;
         private Tree script;
 
@@ -1753,6 +1753,7 @@ public final class TextShell {
         private void nextToken(Frame f) {
             boolean follows = skipBlanks(f.script);
             tokenLine = in.line;
+            reserved = 0;
             int c = look();
             if (c == NONE) {
                 token = END;
@@ -1856,6 +1857,7 @@ public final class TextShell {
             int next = look();
             boolean number = w.told.length == 1 && isDigit(w.told.at(0)) && (next == '<' || next == '>');
             token = number ? NUMBER_TOKEN : WORD_TOKEN;
+            reserved = reservedAs(w);
             due = DUE_TOKEN;
         }
 
@@ -1872,18 +1874,18 @@ public final class TextShell {
             return isPlain(w) && w.told.isNameUpTo(w.told.length);
         }
 
-        /** Which reserved word the token would be, or 0. */
-        private int reserved() {
-            if (token != WORD_TOKEN || word.told.length > 5 || !isPlain(word)) {
+        /** Which reserved word this would be, or 0. */
+        private int reservedAs(Tree w) {
+            if (w.told.length > 5 || !isPlain(w)) {
                 return 0;
             }
-            Name name = memory.find(word.told);
+            Name name = memory.find(w.told);
             return name == null ? 0 : name.reserved;
         }
 
         /** Whether the word is an alias, whose text then takes its place (or has no room). */
         private boolean replaced(boolean couldBeCommand) {
-            boolean may = couldBeCommand || tokenFollows && reserved() == 0;
+            boolean may = couldBeCommand || tokenFollows && reserved == 0;
             if (!may || in.aliases >= MOST_ALIASES || !isPlain(word)) {
                 return false;
             }
@@ -1952,9 +1954,8 @@ public final class TextShell {
 
         private void atBegin(Frame f) {
             if (token == WORD_TOKEN) {
-                int reserved = reserved();
                 if (reserved != 0) {
-                    reservedAtBegin(f, reserved);
+                    reservedAtBegin(f);
                 } else if (!replaced(true)) {
                     startCommand(f, SIMPLE);
                     f.state = IN_SIMPLE;
@@ -1975,7 +1976,7 @@ public final class TextShell {
             }
         }
 
-        private void reservedAtBegin(Frame f, int reserved) {
+        private void reservedAtBegin(Frame f) {
             int kind = compoundOf(reserved);
             if (kind != 0) {
                 openCompound(f, kind);
@@ -1988,7 +1989,7 @@ public final class TextShell {
             } else if (f.has(MUST) || !closes(f, reserved)) {
                 wrong();
             } else {
-                closeByWord(f, reserved);
+                closeByWord(f);
             }
         }
 
@@ -2131,10 +2132,9 @@ public final class TextShell {
 
         private void behindCompound(Frame f) {
             if (token == WORD_TOKEN) {
-                int reserved = reserved();
                 if (reserved != 0 && closes(f, reserved)) {
                     endCommand(f);
-                    closeByWord(f, reserved);
+                    closeByWord(f);
                 } else {
                     outOfPlace();
                 }
@@ -2208,7 +2208,7 @@ public final class TextShell {
         }
 
         private void functionBody(Frame f) {
-            int kind = token == OPEN ? PAREN : compoundOf(reserved());
+            int kind = token == OPEN ? PAREN : compoundOf(reserved);
             if (token == NEWLINE) {
                 newline(f);
             } else if (kind != 0) {
@@ -2304,7 +2304,7 @@ public final class TextShell {
             }
         }
 
-        private void closeByWord(Frame f, int reserved) {
+        private void closeByWord(Frame f) {
             switch (reserved) {
                 case R_THEN:
                 case R_DO:
@@ -2368,7 +2368,6 @@ public final class TextShell {
 
         private void forPart(Frame f) {
             Tree c = f.command;
-            int reserved = reserved();
             boolean isWord = token == WORD_TOKEN;
             boolean ready = f.state == FOR_DO || f.state == FOR_IN;
             if (ready && reserved == R_DO) {
@@ -2404,7 +2403,6 @@ public final class TextShell {
         }
 
         private void casePart(Frame f) {
-            int reserved = reserved();
             if (f.state == CASE_IN && reserved == R_IN) {
                 f.state = CASE_ITEM;
                 f.tail = null;
@@ -4273,18 +4271,28 @@ public final class TextShell {
 
         /** A field, or the path names that it is a pattern of. */
         private void addFields(int from, int to, int first) {
+            pathCount = 0;
             if (!memory.has(OPTION_F) && isPattern(from, to)) {
-                findPaths(from, to);
-                if (shell.signal == Shell.GOING && pathCount > 0) {
-                    sortPaths();
-                    for (int i = 0; i < pathCount; i++) {
-                        addBounded(paths[i], first);
+                pathCount = 1;
+                paths[0] = memory.nothing;
+                nodes[0] = memory.here;
+                int at = from;
+                while (at <= to && shell.signal == Shell.GOING && !shell.isSpent()) {
+                    int end = at;
+                    while (end < to && end < items.length && (!isSign(items[end]) || (items[end] & SIGN) != '/')) {
+                        end++;
                     }
-                    return;
+                    extendPaths(at, end, at == from, end < to);
+                    at = end + 1;
                 }
             }
-            if (shell.signal == Shell.GOING) {
+            if (shell.signal == Shell.GOING && pathCount == 0) {
                 addBounded(rowOf(from, to), first);
+            } else if (shell.signal == Shell.GOING) {
+                sortPaths();
+                for (int i = 0; i < pathCount; i++) {
+                    addBounded(paths[i], first);
+                }
             }
         }
 
@@ -4308,27 +4316,6 @@ public final class TextShell {
 
         // ---- path names ----
 
-        private void findPaths(int from, int to) {
-            pathCount = 1;
-            paths[0] = new Row(0);
-            nodes[0] = memory.here;
-            int at = from;
-            while (at <= to) {
-                if (shell.isSpent()) {
-                    return;
-                }
-                int end = at;
-                while (end < to && end < items.length && (!isSign(items[end]) || (items[end] & SIGN) != '/')) {
-                    end++;
-                }
-                extendPaths(at, end, at == from, end < to);
-                if (shell.signal != Shell.GOING) {
-                    return;
-                }
-                at = end + 1;
-            }
-        }
-
         /** The paths that match up to one more part; behind tells that a / follows. */
         private void extendPaths(int from, int to, boolean isFirst, boolean behind) {
             int old = pathCount;
@@ -4349,8 +4336,13 @@ public final class TextShell {
                 } else {
                     Node n = node.first;
                     while (n != null && pathCount - old <= MOST_PATHS && length <= MOST_PATH_SIGNS) {
-                        boolean hidden = n.name.at(0) == '.' && name.at(0) != '.';
-                        if (!hidden && fitsPart(n)) {
+                        // Many paths may lead to a name: it is matched once.
+                        if (n.part != part) {
+                            walk(n.name, false);
+                            n.part = part;
+                            n.fits = longest == n.name.length && (n.name.at(0) != '.' || name.at(0) == '.');
+                        }
+                        if (n.fits) {
                             length += addPath(paths[i], isFirst, n.name, n, behind);
                         }
                         n = n.next;
@@ -4368,16 +4360,6 @@ public final class TextShell {
             } else {
                 shell.work += 8 * pathCount + length;
             }
-        }
-
-        /** Whether a name fits the part: many paths may lead to it, it is looked at once. */
-        private boolean fitsPart(Node n) {
-            if (n.part != part) {
-                walk(n.name, false);
-                n.part = part;
-                n.fits = longest == n.name.length;
-            }
-            return n.fits;
         }
 
         /** A path comes to the others, if it leads to a directory where it must: how many signs it has, else 0. */
