@@ -151,6 +151,8 @@ public final class RoomTest {
         String eight = "x=" + times(":", 240) + "; x=$x$x$x$x$x$x$x$x; ";
         holds("empty fields", true, eight + "IFS=:; while :; do : $x; done");
         holds("empty parameters", true, eight + "IFS=:; set $x; while :; do : \"$@\"; done");
+        holds("fields of one sign", true, "x=" + times("a:", 240) + "; x=$x$x$x$x; IFS=:; while :; do : $x; done");
+        holds("parameters of one sign", true, "x=" + times("a:", 240) + "; x=$x$x$x$x; IFS=:; set $x; while :; do : \"$@\"; done");
         holds("names that are not there", true, "x=" + times("%s", 200) + "; x=$x$x$x$x$x$x$x$x; while :; do printf $x; done");
         holds("assignments", true, "while :; do : $((" + times("(a=1)+", 300) + "1)); done");
         holds("pipes", true, "while :; do :|:|:|:|:|:|:|:; done");
@@ -168,6 +170,8 @@ public final class RoomTest {
             + "while :; do (x=$y$y); (: >$y$y); (: $(($y$y))); (case $y$y in a) ;; esac); (: $y$y); done");
         holds("a body in a body", true, bodies(36, 5000), bodies(36, 5000), bodies(36, 5000), bodies(36, 5000), bodies(36, 5000), bodies(36, 5000), bodies(36, 5000));
         holds("words in words", true, words(38, 5000), words(38, 5000), words(38, 5000), words(38, 5000), words(38, 5000), words(38, 5000), words(38, 5000));
+        holds("half of a word at each level", true, "y=" + times("y", 500) + "; y=$y$y$y$y$y$y$y$y; y=$y$y$y$y; f() { : $y$(f); }; f; " + nested(": $y$(", ":", ")", 38),
+            "while :; do (" + nested(": $y${a-", "", "}", 38) + "); done");
         holds("long words of tr", true, "y=$(printf '\\t-~'); y=$y$y$y$y$y$y$y$y$y$y$y$y$y; y=$y$y$y$y$y$y$y; y=$y$y$y$y$y; "
             + "y=$y$y$y$y$y$y$y$y$y$y$y$y; while :; do echo abc | tr \"$y\" \"$y\"; done");
         Session.due("long words of tr: elements " + counted("elements"), counted("elements") < 500000, true);
