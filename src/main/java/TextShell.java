@@ -4761,7 +4761,6 @@ public final class TextShell {
         private int operator() {
             skipBlanks();
             int c = text.at(at);
-            int d = text.at(at + 1);
             at += c == NONE ? 0 : 1;
             switch (c) {
                 case NONE:

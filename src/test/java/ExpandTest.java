@@ -67,6 +67,14 @@ public final class ExpandTest {
         runs("echo \"${x%$(echo a >&2)}\"$1.", ".\n?0");
     }
 
+    /** What begins with ${# is told apart by what follows. */
+    private static void hashes() {
+        runs("set a b; echo ${#} ${#-x} ${#?x} ${#:-x} ${#=x} ${#+x} ${#:+y} ${##x} ${##2} ${#%2} ${#%%x} ${#-} ${##} ${#?} ${#$} ${#@} ${#*} ${#1} ${#02}", "2 2 2 2 2 x y 2 2 0 1 1 1 2 2 1 1\n?0");
+        runs("set 1 2 3 4 5 6 7 8 9 0 1 2; echo ${##*} ${##*1} \"<${###*}>\" ${###1} ${#%?} ${#%%?}; set -e -f; echo ${#-}", "12 2 <> 2 1 1\n2\n?0");
+        runs("set a b c; echo ${#%$((1+1))} ${#%$((1+2))}. ${?%$#} ${-#$((1))}.", "3 . 0 .\n?0");
+        runs("echo \"${x+a'b}\" \"${PWD-a'b}\" \"${u:=c'd}\" \"${u+a'b}\"", " a'b c'd a'b\n?0");
+    }
+
     private static void cuts() {
         fields("x=a.b.c", "${x%.*} ${x%%.*} ${x#*.} ${x##*.} ${x%c} ${x%b} ${x#?} ${x%%*} ${x##*}.", "<a.b><a><b.c><c><a.b.><a.b.c><.b.c><.>");
         fields("x=aaa", "${x%a} ${x%%a*} ${x#a} ${x##*a}. ${x%%a} ${x#[a]} ${x%[!a]} ${x#}", "<aa><aa><.><aa><aa><aaa><aaa>");
@@ -119,6 +127,91 @@ public final class ExpandTest {
         fields("set ' a ' '' 'b:c'; IFS=' :'", "$@ . x$@y . \"$*\"", "<a><b><c><.><x><a><b><cy><.>< a   b:c>");
         fields("set a: b; IFS=:", "$@ $*", "<a><b><a><b>");
         fields("IFS=:; x=a:b", "\"$x\"$x '$x' \\$x", "<a:ba><b><$x><$x>");
+    }
+
+    /** Where one field ends and the next begins. */
+    private static void seams() {
+        fields("IFS=' :'; x='a b:c' y='a :b: c' z=': a' v='a : : b'", "$x", "<a><b><c>");
+        fields("IFS=' :'; y='a :b: c'", "$y", "<a><b><c>");
+        fields("IFS=' :'; z=': a'", "$z", "<><a>");
+        fields("IFS=' :'; v='a : : b'", "$v", "<a><><b>");
+        fields("x='a\tb\nc d:e'; IFS=:; set -- $x; unset IFS; set -- $# $x", "\"$@\"", "<2><a><b><c><d:e>");
+        fields("IFS='\t'; x='\ta\t\tb c\t'", "$x", "<a><b c>");
+        fields("IFS='\n'; x='\na\n\nb c\n'", "$x", "<a><b c>");
+        fields("IFS='a'; x='1a2'; IFS=b; y='1a2b3'", "$x $y", "<1a2><1a2><3>");
+        fields(": ${IFS=,}", "'a'", "<a>");
+        fields("unset IFS; : ${IFS=,}; x=a,b", "$x", "<a><b>");
+        runs("for i in $u\"$@\"; do echo x; done; for i in a$u\"$@\"; do echo $i; done; x=$(echo); echo \"<$x>\"; x=$(printf '\\n\\n'); echo \"<$x>\"", "a\n<>\n<>\n?0");
+        runs("mkdir a a.b a-c; touch a/x a.b/x a-c/x a/w; echo */x */*", "a-c/x a.b/x a/x a-c/x a.b/x a/w a/x\n?0");
+        runs("x=$(" + times("echo $(", 18) + "echo q" + times(")", 18) + "); echo $x" + times(" $(echo z)", 30), "q" + times(" z", 30) + "\n?0");
+    }
+
+    private static void setsOfSigns() {
+        runs("for x in a b c - d x; do case $x in [a-cx]) echo y$x;; *) echo n$x; esac; case $x in [a-c]) echo y$x;; *) echo n$x;; esac; done",
+            "ya\nya\nyb\nyb\nyc\nyc\nn-\nn-\nnd\nnd\nyx\nnx\n?0");
+    }
+
+    private static long reckoned(int operator, long a, long b) {
+        switch (operator) {
+            case 0: return a < b ? 1 : 0;
+            case 1: return a <= b ? 1 : 0;
+            case 2: return a > b ? 1 : 0;
+            case 3: return a >= b ? 1 : 0;
+            case 4: return a == b ? 1 : 0;
+            case 5: return a != b ? 1 : 0;
+            case 6: return a != 0 && b != 0 ? 1 : 0;
+            case 7: return a != 0 || b != 0 ? 1 : 0;
+            case 8: return a + b;
+            case 9: return a - b;
+            case 10: return a * b;
+            case 11: return a & b;
+            case 12: return a | b;
+            case 13: return a ^ b;
+            case 14: return a << (b & 63);
+            default: return a >> (b & 63);
+        }
+    }
+
+    /** Each operator between small and great numbers, and as one that assigns. */
+    private static void operators() {
+        String[] told = {"<", "<=", ">", ">=", "==", "!=", "&&", "||", "+", "-", "*", "&", "|", "^", "<<", ">>"};
+        long[] values = {-9223372036854775807L, -70, -3, -1, 0, 1, 2, 3, 65, 9223372036854775807L};
+        for (int i = 0; i < told.length; i++) {
+            for (long a : values) {
+                StringBuilder script = new StringBuilder();
+                StringBuilder due = new StringBuilder();
+                for (long b : values) {
+                    script.append("a=").append(a).append(" b=").append(b).append("; echo $((a ").append(told[i]).append(" b)); ");
+                    due.append(reckoned(i, a, b)).append('\n');
+                    if (i >= 8) {
+                        script.append("echo $((a").append(told[i]).append("=b)) $a; ");
+                        due.append(reckoned(i, a, b)).append(' ').append(reckoned(i, a, b)).append('\n');
+                    }
+                }
+                runs(script.toString(), due + "?0");
+            }
+        }
+        sum("0xA+0XfF+0xa+0x1f", "306");
+        sum("1-1?2:3", "3");
+        sum("0||1?2:3", "2");
+        sum("1&&0?2:3", "3");
+        runs("echo $(( 1 ? 4 : (x=5) )) $(( 0 ? (x=1) : (y=2) )) \"$x\" $y; echo $(( 0 && (1 ? (z=1) : (z=2)) )) $(( 1 || (0 ? (z=1) : (z=2)) )) \"$z\"; echo $(( (0 && (v=1)) + (w=2) )) \"$v\" $w $(( (0 ? (v=1) : 3) + (t=4) )) $t",
+            "4 2  2\n0 1 \n2  2 7 4\n?0");
+        for (String wrong : new String[] {"0x", "0xg", "08", "1)2", "1 2", "-", "1+", "x=", "(1", "1?2", "1:2", "()", "a b", "1=2", "(x)=1", "1?2:x=3", "-x=1", "n", "m", "k"}) {
+            runs("n=- m=' 5' k=+5 w='" + wrong + "'; (: $(($w))); echo $?", "2\n?0");
+        }
+    }
+
+    /** An arithmetic that was left says nothing of the next one; 40 within one another, in each way. */
+    private static void sumsBehindErrors() {
+        runs("w='1+(2+'; (: $(($w))); (: $((1?))); (: $((-))); w='x=(1'; (: $(($w))); (: $((1/0))); echo $((1+2)) $((4)) $((x=5)) $((1?6:7)) $x", "3 4 5 6 5\n?0");
+        runs("w='" + times("(", 40) + "'; (: $(($w))); echo $((" + times("(", 40) + "1" + times(")", 40) + "))", "1\n?0");
+        String[][] ways = {{"(", ")"}, {"- ", ""}, {"+ ", ""}, {"!", ""}, {"~", ""}, {"x=", ""}, {"0?1:", ""}, {"1?", ":2"}, {"x+=", ""}};
+        for (String[] way : ways) {
+            String most = times(way[0], 40) + "1" + times(way[1], 40);
+            runs("(: $((" + most + "))); echo $?; (: $((" + way[0] + most + way[1] + "))); echo $?; (: $((" + most + "))); echo $?", "0\n2\n0\n?0");
+        }
+        runs("echo $((" + times("(1)+", 50) + times("-1+", 50) + times("!1+", 50) + times("~-1+", 50) + times("(0?1:0)+", 50) + "0))", "0\n?0");
     }
 
     private static void pathNames() {
@@ -240,7 +333,12 @@ public final class ExpandTest {
     public static void main(String[] args) {
         quoting();
         parameters();
+        hashes();
         cuts();
+        seams();
+        setsOfSigns();
+        operators();
+        sumsBehindErrors();
         substitutions();
         tildes();
         splitting();

@@ -302,6 +302,39 @@ public final class FaceTest {
         due("as at first", s.run("echo $-$#; pwd; ls; y=1; f; al"), "0\n/\n?127");
     }
 
+    /** What stands at the very edge of a row. */
+    private static void edges() {
+        Session s = new Session();
+        s.put(0, "IFS", "x");
+        due("IFS is a variable", s.shell.count(5), 1);
+        s.input("a\nb\n");
+        s.run("read x");
+        due("what was not read", s.shell.count(4), 2);
+        s.shell.reset();
+        due("no variable", s.shell.count(5), 0);
+        due("no IFS", s.ask(0, "IFS"), null);
+        due("no input", s.shell.count(4), 0);
+        for (String name : new String[] {"A", "Z", "a", "z", "_", "A0", "Z9", "_a_Z", "aA0z9"}) {
+            due(name, s.put(0, name, "v"), true);
+            due(name, s.ask(0, name), "v");
+            due(name, s.run(name + "=w; echo $" + name + "-${" + name + "}."), "w-w.\n?0");
+        }
+        for (String name : new String[] {"", "0", "9a", "a-", "a ", "@", "[", "`", "{", "a@", "a[", "a`", "a{", "a/", "a:", " a", "\n"}) {
+            due(name, s.put(0, name, "v"), false);
+            due(name, s.put(2, name, "v"), false);
+        }
+        due("a newline ahead", s.put(2, "a", "\nx"), false);
+        due("a newline behind", s.put(2, "a", "x\n"), false);
+        due("neither", s.put(2, "a", "x"), true);
+        for (String bad : new String[] {"\0", "\0a", "a\0", "\u001f", "\u007f", "\u00e9", "\r", "\u000b", "\u0008"}) {
+            for (int i = 0; i < 4; i++) {
+                s.tape(bad);
+                due("bytes that are none", thrown(s, new String[] {"read", "input", "put", "ask"}[i], i == 2 ? 1 : bad.length(), bad.length(), 0) > 0, true);
+                s.read("");
+            }
+        }
+    }
+
     private static void keeps() {
         Session s = new Session();
         s.read("seq 1 10000; echo x >&2");
@@ -338,6 +371,7 @@ public final class FaceTest {
         putsWithoutRoom();
         asks();
         clearsAndResets();
+        edges();
         keeps();
         counts();
         Session.end();

@@ -22,6 +22,16 @@ public final class ReadTest {
 
     private static void tokensOutOfPlace() {
         faults("a | | b", 1, 1);
+        faults("{ a; } $(b\nc)", 1, 1);
+        faults("a\n{ a; } \"b\nc\"", 1, 2);
+        faults("a b (\n)", 1, 1);
+        faults("a\\\nb c (\n)", 1, 2);
+        faults("case a in | b) ;; esac", 1, 1);
+        faults("case a in ;; esac", 1, 1);
+        faults("case a in b\n) ;; esac", 1, 1);
+        faults("case a in b ( c) ;; esac", 1, 1);
+        faults("case a in (( c) ;; esac", 1, 1);
+        faults("case a ( in c) ;; esac", 1, 1);
         faults("a\nb ;; c", 1, 2);
         faults("| a", 1, 1);
         faults("a && && b", 1, 1);
@@ -243,6 +253,56 @@ public final class ReadTest {
         Session.due("what began counts", u.shell.count(14), 240 + 16 + 6 + 26);
     }
 
+    /** SOURCE may come to 40000, not to 40001. */
+    private static void justRoom() {
+        Session s = new Session();
+        Session t = new Session();
+        for (int i = 0; i < 4; i++) {
+            Session.due("read", s.read("#" + times("x", 8999)), 0);
+            Session.due("read", t.read("#" + times("x", 8999)), 0);
+        }
+        Session.due("source", s.shell.count(14), 36064);
+        Session.due("a byte too many", s.read("#" + times("x", 3920)), 6);
+        Session.due("source", s.shell.count(14), 36064);
+        Session.due("just enough", s.read("#" + times("x", 3919)), 0);
+        Session.due("source", s.shell.count(14), 40000);
+        Session.due("room for `..` just so", t.read(": " + times("y", 3898) + "`:`"), 0);
+        Session.due("source", t.shell.count(14), 40000);
+        Session v = new Session();
+        Session.due("parts", v.read("echo `a \\\\ \\$ \\x` \"`a \\\"b\\\"`\""), 0);
+        Session.due("as they were told", v.shell.count(14), 16 + 29 + 16 + 10 + 16 + 7);
+    }
+
+    /** What is behind something is not within it. */
+    private static void behindThings() {
+        for (String thing : new String[] {"$(a) ", "`a` ", "${x} ", "${#x} ", "${#} ", "${x-a} ", "${x%a} ", "\"${x}${x-\"a\"}\" ", "$((1)) ", "${#-x} ", "${##x} "}) {
+            fine("echo " + times(thing, 50));
+            fine("cat <<E\n" + times(thing.replace("\"", ""), 50) + "\nE\n");
+        }
+        for (String thing : new String[] {"{ a; }", "(a)", "if a; then b; elif c; then d; else e; fi", "while a; do b; done", "until a; do b; done", "for x in a; do b; done", "for x do b; done",
+            "case a in b) ;; esac", "case a in b) c; esac", "case a in esac", "f() { a; }", "f() (a)"}) {
+            fine(times(thing + "; ", 50));
+            fine(times(thing + " | ", 50) + "a");
+        }
+    }
+
+    /** Lines of here-documents behind newlines in all places. */
+    private static void linesOfBodies() {
+        String body = "\nx\nE\n";
+        prints("cat <<E; f()" + body + "{ a; }", "cat << E\nx\nE\nf() {\na\n}\n");
+        prints("cat <<E; case a" + body + "in b) c;; esac", "cat << E\nx\nE\ncase a in\n(b)\nc\n;;\nesac\n");
+        prints("cat <<E; case a in" + body + "b) c;; esac", "cat << E\nx\nE\ncase a in\n(b)\nc\n;;\nesac\n");
+        prints("cat <<E; case a in b)" + body + "c;; esac", "cat << E\nx\nE\ncase a in\n(b)\nc\n;;\nesac\n");
+        prints("cat <<E; case a in b) c;;" + body + "esac", "cat << E\nx\nE\ncase a in\n(b)\nc\n;;\nesac\n");
+        prints("cat <<E; for x" + body + "in a; do b; done", "cat << E\nx\nE\nfor x in a\ndo\nb\ndone\n");
+        prints("cat <<E; for x in a" + body + "do b; done", "cat << E\nx\nE\nfor x in a\ndo\nb\ndone\n");
+        prints("cat <<E; for x;" + body + "do b; done", "cat << E\nx\nE\nfor x\ndo\nb\ndone\n");
+        prints("cat <<E && " + body + "a |" + "\nb", "cat << E && a | b\nx\nE\n");
+        prints("cat <<-E\n\t$(echo 'a\n\tb'; cat <<F\n\tc\nF\ncat <<'G'\n\td\nG\n)`echo 'e\n\tf'`\n\tE", "cat <<- E\n$(echo 'a\nb'; cat <<F\nc\nF\ncat <<'G'\nd\nG\n)`echo 'e\nf'`\nE\n");
+        Session.runs("cat <<-E\n\t$(echo 'a\n\tb'; cat <<F\n\tc\nF\ncat <<'G'\n\td\nG\n)`echo 'e\n\tf'`\n\tE", "a\nb\nc\nde\nf\n?0");
+        Session.runs("cat <<E\n$(echo 'a\\\nb' # c\\\nd\necho `echo 'e\\\nf'`)\nE", "ab\nef\n?0");
+    }
+
     private static void vanishedNewlines() {
         prints("ec\\\nho a\\\n  b", "echo a b\n");
         prints("a &\\\n& b", "a && b\n");
@@ -434,6 +494,10 @@ public final class ReadTest {
         alias(s, "p x) x;; esac", "case a in\n(y)\ny\n;;\nesac\n");
         alias(s, "b do", "fault 1 line 1");
         alias(s, "b o", "fault 1 line 1");
+        Session u = aliased("o", "| z", "p", "; z");
+        alias(u, "{ z; } o", "fault 1 line 1");
+        alias(u, "{ z; } p", "fault 1 line 1");
+        alias(u, "f() o", "fault 1 line 1");
         alias(s, "g s { x; }", "fn() {\ny\n}\n");
         alias(s, "g s", "fault 2 line 2");
         alias(s, "g x", "fault 1 line 1");
@@ -502,6 +566,9 @@ public final class ReadTest {
         tooDeep();
         delimiters();
         room();
+        justRoom();
+        behindThings();
+        linesOfBodies();
         vanishedNewlines();
         words();
         trees();

@@ -133,6 +133,37 @@ public final class RunTest {
         runs("{ echo a; false; }; echo $?; { :; } | cat; (echo b; { exit 3; }); echo $?", "a\n1\nb\n3\n?0");
     }
 
+    /** A text so many times, with its number for # . */
+    private static String counted(String text, int n) {
+        StringBuilder all = new StringBuilder();
+        for (int i = 0; i < n; i++) {
+            all.append(text.replace("#", String.valueOf(i)));
+        }
+        return all.toString();
+    }
+
+    /** What was within something is not within it any more behind it. */
+    private static void behindThings() {
+        runs("> e; f() { :; }; i=0; while [ $i -lt 70 ]; do i=$((i+1)); : & x=$(:); f; eval :; . ./e; : ${u-a} ${x%a} $((1)) ${u=} ${x:+a}; { :; }; :|:; (:); (eval ')'); "
+            + "if :; then :; fi; for j in a; do :; done; case a in a) ;; esac; done; echo $i", "70\n?0");
+        runs("while false; do :; done; break; echo a; for i in a; do :; done; break; echo b; continue; echo c; while :; do . ./none; done; echo d", "a\nb\nc\n?2");
+        runs("> e; while :; do . ./e; break; echo no; done; while :; do eval :; break 1; echo no; done; f() { break; }; for i in 1 2; do f; echo $i; done; for i in 1 2; do continue 1; echo no; done; echo ok",
+            "1\n2\nok\n?0");
+        runs("false; for i in; do :; done; echo $?; false; for i in $u; do :; done; echo $?; false; case a in b) ;; esac; echo $?; false; case a in a) ;; esac; echo $?; false; for i; do :; done; echo $?; for i in a; do false; done; echo $?",
+            "0\n0\n0\n0\n0\n1\n?0");
+        runs("case a in a) echo 1; echo 2 && echo 3; echo 4 & echo 5;; esac", "1\n2\n3\n4\n5\n?0");
+        runs(counted("a#=# ", 20) + "true; echo \"<$a0$a1$a15$a16$a17$a19>\"; a1=b; a1=c a2=d a1=e true; echo $a1 \"$a2\"", "<>\nb \n?0");
+        runs("{ echo in; echo err >&2; }" + counted(" > f# 2> g#", 20) + "; echo out; echo e >&2; cat f19 g19; cat f18 g18 f0", "out\nin\nerr\n[2]e\n?0");
+        runs("echo a 0> f; cat f; echo b 0< f; cat 0<< E\nc\nE\necho d 1> f; cat f; echo e 2> f", "a\nb\nc\nd\ne\n?0");
+        runs("f() { echo f; }; (unset -f f; f); f; (f() { echo g; }; f); f; (unset -f f nothing); f", "f\ng\nf\nf\n?0");
+        runs("set a b c; (shift 1 2; echo no); echo $?; (shift x; echo no); echo $?; (shift 4; echo no); echo $?; (shift -1; echo no); echo $?; shift 0; echo $#; shift 3; echo $#; (shift; echo no); echo $?", "2\n2\n2\n2\n3\n0\n2\n?0");
+        runs("(readonly =x; echo no); echo $?; (export =x; echo no); echo $?; (export x=1 2=3; echo no); echo $?; (unset a 1; echo no); echo $?", "2\n2\n2\n2\n?0");
+        Session s = new Session();
+        s.run("echo q > f; { rm f; echo x; } > f; { rm g; echo y; echo z >&2; } >> g 2>> g");
+        Session.due("bytes of removed files", s.shell.count(12), 0);
+        runs("echo q > f; { rm f; echo x >&2; cat; } < f 2>> f; ls; echo q > f; { echo r >&2; cat; } < f 2>> f", "q\nr\n?0");
+    }
+
     private static void functions() {
         runs("f() { echo \"$# $* $0\"; set x; echo $*; shift; echo $#; }; set a b; f 1 '2 3' ''; echo $*; f; echo $#", "3 1 2 3  sh\nx\n0\na b\n0  sh\nx\n0\n2\n?0");
         runs("f() { return 3; echo no; }; f; echo $?; g() { (exit 4); return; }; g; echo $?; h() { false; }; h; echo $?; f() :; ", "fault 1 line 1");
@@ -266,6 +297,23 @@ public final class RunTest {
         runs("f() { set $(seq 1 1998) a; : $(set $(seq 1 10); echo $*) ; }; f $(seq 1 1000); echo $?", "0\n?0");
     }
 
+    /** Bounds that are told by a number: just so many, and one more. */
+    private static void justSoMany() {
+        String x = "x='#" + times("x", 99) + "'; x=$x$x$x$x; y=$x$x$x$x; x=$y$y$y$y$y$y$y$y$y$y; ";
+        runs(x + "echo ${#x}; y=${x#" + times("?", 16) + "}; (eval \"#${y}\"; echo ${#y}); eval \"#$y\" ''; echo $?", "16000\n15984\n0\n?0");
+        runs(x + "y=" + times("y", 382) + "; (eval \"$x$y\" a; echo $?); echo $?; (eval \"$x${y}y\" a; echo $?); echo $?; (eval \"$x${y}zz\"; echo $?); (: $x${y}zzz); echo $?; (: ${u-$x${y}zz}; echo $?); (: ${u-$x${y}zz}z); echo $?; (: ${u-$x${y}zzz}); echo $?",
+            "0\n0\n2\n0\n2\n0\n2\n2\n?0");
+        runs("y=$(printf 'b:' | tr ab '\\n- '); (eval \"$y\"; echo no); echo $?; (eval \":$y\"; echo no); echo $?; alias \"a=$y\"; echo $?; alias 'a=\nx'; echo $?; alias 'a=x\n'; echo $?; alias a=x; echo $?", "2\n2\n1\n1\n1\n0\n?0");
+        String many = "for i in 1 2 3 4; do for j in 0 1 2 3 4 5 6 7 8 9; do mkdir d$i$j; > e$i$j; done; done; for i in 0 1 2 3 4 5 6 7 8 9; do > e5$i; done; ";
+        runs(many + "set */../e*; echo $#", "?2");
+        runs(many + "for i in */../e*; do :; break; done; echo ${i%/*}", "d10/..\n?0");
+        runs(many + "> e60; echo */../e*; echo no", "?2");
+        String deep = "p=; for i in " + times("a ", 16) + "; do mkdir ${p}" + times("n", 60) + "; p=${p}" + times("n", 60) + "/; done; cd $p; q=e" + times("f", 45)
+            + "; for i in 0 1 2 3 4 5 6 7; do for j in 0 1 2 3 4 5 6 7; do > $q$i$j; done; done; ";
+        runs(deep + "cd /; set $p*; echo $# ${#1}", "64 1024\n?0");
+        runs(deep + "mv ${q}00 ${q}000; cd /; echo $p*; echo no", "?2");
+    }
+
     private static void spent() {
         Session s = new Session();
         Session.due("spent", s.run("x=1; (x=2; while :; do :; done) > f; echo no"), "?130 end 2");
@@ -298,11 +346,13 @@ public final class RunTest {
         pipelines();
         subshells();
         compounds();
+        behindThings();
         functions();
         errors();
         optionE();
         specials();
         bounds();
+        justSoMany();
         spent();
         files();
         Session.end();

@@ -41,6 +41,40 @@ public final class ToolsTest {
         runs("[ a; echo $?; [; echo $?; [ a ] b; echo $?; [ ]; echo $?; [ ] ]; echo $?", "2\n2\n2\n1\n0\n?0");
     }
 
+    /** Each comparison between each two numbers. */
+    private static void comparisons() {
+        String[] told = {"-eq", "-ne", "-lt", "-le", "-gt", "-ge"};
+        String[] values = {"-999999999999999999", "-2", "0", "-0", "7", "007", "999999999999999999"};
+        for (String how : told) {
+            StringBuilder script = new StringBuilder();
+            StringBuilder due = new StringBuilder();
+            for (String a : values) {
+                for (String b : values) {
+                    int order = Long.compare(Long.parseLong(a), Long.parseLong(b));
+                    boolean holds = how.equals("-eq") && order == 0 || how.equals("-ne") && order != 0 || how.equals("-lt") && order < 0 || how.equals("-le") && order <= 0
+                        || how.equals("-gt") && order > 0 || how.equals("-ge") && order >= 0;
+                    script.append("[ ").append(a).append(' ').append(how).append(' ').append(b).append(" ];echo $?\n");
+                    due.append(holds ? "0\n" : "1\n");
+                }
+            }
+            runs(script.toString(), due + "?0");
+        }
+        runs("test -9999999999999999999 -lt 0; echo $?; test 1234567890123456789 -gt 0; echo $?; test - -lt 0; echo $?; test -- -lt 0; echo $?; test +1 -gt 0; echo $?; test ' 1' -gt 0; echo $?", "2\n2\n2\n2\n2\n2\n?0");
+        runs("printf '%c%c%c.' a bc ''; printf %c; printf '<%s>' a; printf '%d ' 1 -1 007 -0 999999999999999999", "ab.<a>1 -1 7 0 999999999999999999 ?0");
+    }
+
+    /** What one command left behind in the rows that all share says nothing to the next one. */
+    private static void oneBehindAnother() {
+        runs("printf '10\\n9\\n' > f; sort -n f; sort f; sort -r f; sort f; sort -u f; echo; sort -n -r f; sort f", "9\n10\n10\n9\n9\n10\n10\n9\n10\n9\n\n10\n9\n10\n9\n?0");
+        runs("seq 1 200 | sort -r -n | head -n 2; seq 1 200 | sort | tail -n 2; seq 1 300 | sort -n | tail -n 1; seq 1 3 | sort -n -r", "200\n199\n98\n99\n300\n3\n2\n1\n?0");
+        runs("seq 1 3 | tail; seq 1 12 | tail | head -n 1; seq 1 3 | head; seq 1 12 | head | tail -n 1; seq 1 2 | tail -n 5; seq 1 4 | tail -n 4 | head -n 1", "1\n2\n3\n3\n1\n2\n3\n10\n1\n2\n1\n?0");
+        runs("printf 'a\\t\\na\\nab\\n\\n' | sort; printf ' 100000000000000002\\n100000000000000001\\n-1\\n- 5\\n' | sort -n", "\na\na\t\nab\n-1\n- 5\n100000000000000001\n 100000000000000002\n?0");
+        runs("printf 'a\\nb\\n' | uniq; printf 'a\\n\\n' | uniq -c; printf '\\n' | uniq -c; printf 'a' | uniq -c; printf '' | uniq -c; seq 1 3 | uniq -c", "a\nb\n1 a\n1 \n1 \n1 a\n1 1\n1 2\n1 3\n?0");
+        runs("echo ax | tr a x-z; echo ab | tr ab 12; echo ax | tr a z-a; echo ab | tr ab 12; echo axy | tr -d x-z; echo az- | tr -d z-a; echo abz | tr z c", "xx\n12\nzx\n12\na\n\nabc\n?0");
+        runs("printf 'a\\nb\\n' > f; grep 'a\nb' f; echo $?; grep -c 'b\n' f; grep '\n' f; echo $?; grep ab f; echo $?; grep -v c f", "1\n0\n1\n1\na\nb\n?0");
+        runs("printf 'a:b:\\n:\\n' > f; cut -d : -f 3 f; cut -d : -f 2 f; cut -d : -f 4 f; cut -d : -f 1 f", "\n\nb\n\n\n\na\n\n?0");
+    }
+
     private static void read(String input, String command, String want) {
         Session s = new Session();
         s.input(input);
@@ -204,6 +238,8 @@ public final class ToolsTest {
         small();
         printf();
         tests();
+        comparisons();
+        oneBehindAnother();
         reads();
         aliases();
         texts();
