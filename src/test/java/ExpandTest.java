@@ -211,6 +211,10 @@ public final class ExpandTest {
             String most = times(way[0], 40) + "1" + times(way[1], 40);
             runs("(: $((" + most + "))); echo $?; (: $((" + way[0] + most + way[1] + "))); echo $?; (: $((" + most + "))); echo $?", "0\n2\n0\n?0");
         }
+        for (String ahead : new String[] {"1+1*1-1", "(1)+(1)+(1)", "1?1:1", "-1+-1+-1", "x=1"}) {
+            runs("(: $((" + ahead + "+" + times("(", 41) + "1" + times(")", 41) + "))); echo $?; (: $(((" + ahead + ")+" + times("-", 40) + "1))); echo $?", "2\n0\n?0");
+        }
+        runs("(: $((1)2)); echo no); echo $?; (: $(( 1 ) )); echo no); echo $?; w=')'; (: $((1$w)); echo no); echo $?", "2\n2\n2\n?0");
         runs("echo $((" + times("(1)+", 50) + times("-1+", 50) + times("!1+", 50) + times("~-1+", 50) + times("(0?1:0)+", 50) + "0))", "0\n?0");
     }
 

@@ -144,7 +144,7 @@ public final class RunTest {
 
     /** What was within something is not within it any more behind it. */
     private static void behindThings() {
-        runs("> e; f() { :; }; i=0; while [ $i -lt 70 ]; do i=$((i+1)); : & x=$(:); f; eval :; . ./e; : ${u-a} ${x%a} $((1)) ${u=} ${x:+a}; { :; }; :|:; (:); (eval ')'); "
+        runs("> e; f() { :; }; i=0; while [ $i -lt 70 ]; do i=$((i+1)); : & x=$(:); f; eval :; . ./e; : ${u-a} ${i%a} $((1)) ${i:+a} ${x:=}; unset x; { :; }; :|:; (:); (eval ')'); "
             + "if :; then :; fi; for j in a; do :; done; case a in a) ;; esac; done; echo $i", "70\n?0");
         runs("while false; do :; done; break; echo a; for i in a; do :; done; break; echo b; continue; echo c; while :; do . ./none; done; echo d", "a\nb\nc\n?2");
         runs("> e; while :; do . ./e; break; echo no; done; while :; do eval :; break 1; echo no; done; f() { break; }; for i in 1 2; do f; echo $i; done; for i in 1 2; do continue 1; echo no; done; echo ok",
@@ -154,7 +154,7 @@ public final class RunTest {
         runs("case a in a) echo 1; echo 2 && echo 3; echo 4 & echo 5;; esac", "1\n2\n3\n4\n5\n?0");
         runs(counted("a#=# ", 20) + "true; echo \"<$a0$a1$a15$a16$a17$a19>\"; a1=b; a1=c a2=d a1=e true; echo $a1 \"$a2\"", "<>\nb \n?0");
         runs("{ echo in; echo err >&2; }" + counted(" > f# 2> g#", 20) + "; echo out; echo e >&2; cat f19 g19; cat f18 g18 f0", "out\nin\nerr\n[2]e\n?0");
-        runs("echo a 0> f; cat f; echo b 0< f; cat 0<< E\nc\nE\necho d 1> f; cat f; echo e 2> f", "a\nb\nc\nd\ne\n?0");
+        runs("echo a 0> f; cat f; wc -c f; echo b 0< f; cat 0<< E\nc\nE\necho d 1> f; cat f; echo e 2> f", "a\n0\nb\nc\nd\ne\n?0");
         runs("f() { echo f; }; (unset -f f; f); f; (f() { echo g; }; f); f; (unset -f f nothing); f", "f\ng\nf\nf\n?0");
         runs("set a b c; (shift 1 2; echo no); echo $?; (shift x; echo no); echo $?; (shift 4; echo no); echo $?; (shift -1; echo no); echo $?; shift 0; echo $#; shift 3; echo $#; (shift; echo no); echo $?", "2\n2\n2\n2\n3\n0\n2\n?0");
         runs("(readonly =x; echo no); echo $?; (export =x; echo no); echo $?; (export x=1 2=3; echo no); echo $?; (unset a 1; echo no); echo $?", "2\n2\n2\n2\n?0");

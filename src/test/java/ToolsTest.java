@@ -70,6 +70,7 @@ public final class ToolsTest {
         runs("seq 1 3 | tail; seq 1 12 | tail | head -n 1; seq 1 3 | head; seq 1 12 | head | tail -n 1; seq 1 2 | tail -n 5; seq 1 4 | tail -n 4 | head -n 1", "1\n2\n3\n3\n1\n2\n3\n10\n1\n2\n1\n?0");
         runs("printf 'a\\t\\na\\nab\\n\\n' | sort; printf ' 100000000000000002\\n100000000000000001\\n-1\\n- 5\\n' | sort -n", "\na\na\t\nab\n-1\n- 5\n100000000000000001\n 100000000000000002\n?0");
         runs("printf 'a\\nb\\n' | uniq; printf 'a\\n\\n' | uniq -c; printf '\\n' | uniq -c; printf 'a' | uniq -c; printf '' | uniq -c; seq 1 3 | uniq -c", "a\nb\n1 a\n1 \n1 \n1 a\n1 1\n1 2\n1 3\n?0");
+        runs("printf 'a\\n\\n\\n\\n' | sort > /dev/null; printf 'a\\n\\n' | uniq", "a\n\n?0");
         runs("echo ax | tr a x-z; echo ab | tr ab 12; echo ax | tr a z-a; echo ab | tr ab 12; echo axy | tr -d x-z; echo az- | tr -d z-a; echo abz | tr z c", "xx\n12\nzx\n12\na\n\nabc\n?0");
         runs("printf 'a\\nb\\n' > f; grep 'a\nb' f; echo $?; grep -c 'b\n' f; grep '\n' f; echo $?; grep ab f; echo $?; grep -v c f", "1\n0\n1\n1\na\nb\n?0");
         runs("printf 'a:b:\\n:\\n' > f; cut -d : -f 3 f; cut -d : -f 2 f; cut -d : -f 4 f; cut -d : -f 1 f", "\n\nb\n\n\n\na\n\n?0");

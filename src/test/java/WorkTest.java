@@ -148,6 +148,7 @@ public final class WorkTest {
         s = worked(128000 - 16 - 12 - 11 - 2);
         Session.due("two bytes are written", s.run("echo abc"), "ab?0");
         Session.due("work", s.shell.count(15), 128000);
+        Session.due("it is spent", s.shell.count(16), 1);
         Session.due("spent", s.run(":"), "?130 end 2");
         s = worked(128000 - 16 - 11 - 9 - 3);
         s.put(1, "/f", "abcdef");
