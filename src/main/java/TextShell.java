@@ -3368,11 +3368,9 @@ public final class TextShell {
                 define(c);
                 return;
             }
-            if (!deeper()) {
-                return;
-            }
             int mark = redirected;
-            if (redirect(c.words)) {
+            // The redirections stand behind the compound, not within it.
+            if (redirect(c.words) && deeper()) {
                 switch (c.kind) {
                     case PAREN:
                         memory.enter(status);
@@ -3394,9 +3392,9 @@ public final class TextShell {
                     default:
                         loop(c);
                 }
+                level--;
             }
             restore(mark);
-            level--;
         }
 
         private void define(Tree c) {

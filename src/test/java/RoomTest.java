@@ -131,7 +131,7 @@ public final class RoomTest {
 
     /** Each way to be within something, as deep as reading and running go. */
     private static void deep() throws Exception {
-        String[][] ways = {{"x=$(", ") true"}, {"x=$(", ")"}, {"echo $(", ")"}, {": > $(", ")"}, {"x=${u-$(", ")}"}, {": ${x%$(", ")}"}, {"echo $(( $(", ") ))"},
+        String[][] ways = {{"x=$(", ") true"}, {"x=$(", ")"}, {"echo $(", ")"}, {": > $(", ")"}, {"{ :; } > $(", ")"}, {"x=${u-$(", ")}"}, {": ${x%$(", ")}"}, {"echo $(( $(", ") ))"},
             {"if ", "; then :; fi"}, {"{ ", "; }"}, {"( ", " )"}, {"while ", "; do break; done"}, {"for i in $(", "); do :; done"}, {"case $(", ") in *) ;; esac"},
             {"case a in $(", ")) ;; esac"}, {"{ : | ", "; }"}, {"f() { ", "; }; f"}, {"{ ", " & }"}};
         for (String[] way : ways) {

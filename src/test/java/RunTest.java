@@ -281,6 +281,9 @@ public final class RunTest {
         s.run("rm o; f() { echo a >> o; if f; then :; fi; }; f");
         Session.due("compounds", s.ask(1, "/o").length(), 2 * 20);
         runs("f() { : ${u-${u-${u-$((1))}}}; }; f; echo $?", "0\n?0");
+        // The redirections of a compound stand behind it: what they tell is not within it.
+        String evals = "i=0; eval \"$x\"; ls; i=0; x=${x%%echo*}'echo $(:) g); [ $i -lt 59 ] && eval \"$x\"'; (eval \"$x\"); echo $?; ls";
+        runs("x='i=$((i+1)); [ $i -eq 59 ] && { :; } > $(echo f); [ $i -lt 59 ] && eval \"$x\"'; " + evals, "f\n2\nf\n?0");
 
         String x = "x=0123456789abcdef; x=$x$x$x$x$x$x$x$x; x=$x$x$x$x$x$x$x$x; x=$x$x$x$x; ";
         runs(x + "echo ${#x}; y=$x$x$x$x; echo ${#y}; y=$x$x$x$x.; echo no", "4096\n16384\n?2");
