@@ -3156,7 +3156,7 @@ public final class TextShell {
         }
 
         private void inBackground(Tree first) {
-            if (!deeper()) {
+            if (isSpent() || !deeper()) {
                 return;
             }
             memory.enter(status);
@@ -3179,7 +3179,7 @@ public final class TextShell {
             Stream out = open[1];
             Stream from = in;
             Tree at = first;
-            while (at != null && signal == GOING && deeper()) {
+            while (at != null && signal == GOING && !isSpent() && deeper()) {
                 Row pipe = at == last ? null : new Row(16);
                 open[0] = from;
                 open[1] = pipe == null ? out : new Stream(pipe, null, false, MOST_PIPE);
@@ -3808,7 +3808,7 @@ public final class TextShell {
                 if (!word.isNameUpTo(end)) {
                     return false;
                 }
-                Name name = memory.name(word.part(0, end));
+                Name name = memory.name(end < word.length ? word.part(0, end) : word);
                 if (end < word.length && !memory.assign(name, word.part(end + 1, word.length))) {
                     return false;
                 }
@@ -4088,7 +4088,8 @@ public final class TextShell {
             } else if (all) {
                 showAll(id, item, way);
             } else if (value != null && form >= CUT_END) {
-                trim(code, at, end, id < 0 ? value.part(0, value.length) : value);
+                // Only what lies in the row that w may use again is copied: a copy takes room, but costs no WORK.
+                trim(code, at, end, id < 0 && id >= POSITION ? value.part(0, value.length) : value);
             } else if (value != null) {
                 pushRow(value, flagOf(item));
             }
@@ -5401,6 +5402,9 @@ public final class TextShell {
         }
 
         private Row signs(int start, int end) {
+            if (end <= start) {
+                return memory.nothing;
+            }
             Row row = new Row(end - start);
             for (int i = start; i < end; i++) {
                 row.add(text.at(i) & SIGN);
