@@ -4449,7 +4449,10 @@ public final class TextShell {
             return i < length ? i + 1 : at + 1;
         }
 
-        /** How long the shortest and the longest beginning (or end) of a value is that the pattern matches. */
+        /**
+         * How long the shortest and the longest beginning (or end) of a value is that the pattern matches. What is
+         * reached lies from low to high: looking at no more is what keeps most patterns fast.
+         */
         private void walk(Row value, boolean backwards) {
             shortest = NONE;
             longest = NONE;
@@ -4457,15 +4460,23 @@ public final class TextShell {
                 reached[j] = 0;
             }
             reached[0] = 1;
-            boolean some = passStars(backwards);
-            for (int i = 0; i <= value.length && some; i++) {
+            int low = 0;
+            int high = passStars(0, 0, backwards);
+            for (int i = 0; i <= value.length && low <= high; i++) {
                 if (reached[elementCount] != 0) {
                     shortest = shortest == NONE ? i : shortest;
                     longest = i;
                 }
                 if (i < value.length) {
-                    passSign(value.at(backwards ? value.length - 1 - i : i), backwards);
-                    some = passStars(backwards);
+                    high = Math.min(high + 1, elementCount);
+                    passSign(value.at(backwards ? value.length - 1 - i : i), low, high, backwards);
+                    while (low <= high && reached[low] == 0) {
+                        low++;
+                    }
+                    while (high > low && reached[high] == 0) {
+                        high--;
+                    }
+                    high = passStars(low, high, backwards);
                 }
             }
         }
@@ -4479,25 +4490,23 @@ public final class TextShell {
             return at >= 0 && at < pattern.length && pattern[at] == '*';
         }
 
-        /** A star may stand for nothing. Whether anything is reached. */
-        private boolean passStars(boolean backwards) {
-            boolean some = false;
-            for (int j = 0; j < elementCount; j++) {
-                if (reached[j] != 0) {
-                    some = true;
-                    if (isStar(element(j, backwards))) {
-                        reached[j + 1] = 1;
-                    }
+        /** A star may stand for nothing. The highest element that is reached then. */
+        private int passStars(int low, int high, boolean backwards) {
+            int last = high;
+            for (int j = low; j <= last && j < elementCount; j++) {
+                if (reached[j] != 0 && isStar(element(j, backwards))) {
+                    reached[j + 1] = 1;
+                    last = Math.max(last, j + 1);
                 }
             }
-            return some || reached[elementCount] != 0;
+            return last;
         }
 
-        private void passSign(int sign, boolean backwards) {
-            for (int j = elementCount; j >= 0; j--) {
+        private void passSign(int sign, int low, int high, boolean backwards) {
+            for (int j = high; j >= low; j--) {
                 boolean stays = j < elementCount && reached[j] != 0 && isStar(element(j, backwards));
                 boolean comes = false;
-                if (j > 0 && reached[j - 1] != 0) {
+                if (j > low && reached[j - 1] != 0) {
                     int element = element(j - 1, backwards);
                     comes = !isStar(element) && fits(element, sign);
                 }

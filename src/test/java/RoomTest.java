@@ -168,6 +168,11 @@ public final class RoomTest {
             + "while :; do ( : $n/$n/$n*/*/*/*/*/*/*/*/*/*/*/*/*/* ); done");
         holds("words that are left", true, "y=" + times("y", 500) + "; y=$y$y$y$y$y$y$y$y; y=$y$y$y$y; "
             + "while :; do (x=$y$y); (: >$y$y); (: $(($y$y))); (case $y$y in a) ;; esac); (: $y$y); done");
+        String y = "y=" + times("y", 500) + "; y=$y$y$y$y$y$y$y$y; y=$y$y$y$y; set \"$y\"; ";
+        for (String left : new String[] {"${1%$((1/0))}", "${1##${u?}}", "${y%%$((1/0))}", "\"${1#$((1/0))}\"", "${y+$y$((1/0))}", "${u-$1${u?}}", "$(($y$((1/0))))"}) {
+            holds("a value whose w is left: " + left, true, y + "while :; do (: " + left + "); done");
+            Session.due(left + ": elements " + counted("elements"), counted("elements") < 1000000, true);
+        }
         holds("a body in a body", true, bodies(36, 5000), bodies(36, 5000), bodies(36, 5000), bodies(36, 5000), bodies(36, 5000), bodies(36, 5000), bodies(36, 5000));
         holds("words in words", true, words(38, 5000), words(38, 5000), words(38, 5000), words(38, 5000), words(38, 5000), words(38, 5000), words(38, 5000));
         holds("half of a word at each level", true, "y=" + times("y", 500) + "; y=$y$y$y$y$y$y$y$y; y=$y$y$y$y; f() { : $y$(f); }; f; " + nested(": $y$(", ":", ")", 38),
