@@ -188,6 +188,12 @@ public final class RunBoundsTest {
         }
     }
 
+    // Special parameters have no row of their own: w may name others.
+    private static void specialCuts() {
+        runs("set a b; echo ${0%$#} ${0#$((5))} ${0%h$u} ${#%$((2))}. ${?%${#}} ${-#$?}. ${$%$#} ${$#1}. ${0##${?}*}", "sh sh s . 0 . 1 . sh\n?0");
+        runs("set -f a b c; echo ${-%${#%3}}. ${-#${0#s}} ${?#${-%f}0}. ${0%%${#}$?} ${#1} ${0:+${0%h}} ${0:-$#}", "f. f . sh 1 s sh\n?0");
+    }
+
     // "what the script writes to its output, without newlines at its end"; "holds 16384 bytes, what is more is lost"
     private static void substitutions() {
         for (String written : new String[] {"", "\\n", "\\n\\n\\n", "a", "a\\n", "a\\n\\n\\n", "\\na", "\\n\\na\\n", "a\\n\\nb\\n", " \\n", "a \\n"}) {
@@ -237,8 +243,8 @@ public final class RunBoundsTest {
 
     // "[ ] one of its characters, a-z ranges, with ! first none of these; a ] first is one; a [ without ] is itself"
     private static void patterns() {
-        String[][] fits = {{"", ""}, {"", "*"}, {"", "**"}, {"a", "?"}, {"a", "*?"}, {"ab", "*"}, {"ab", "??"}, {"[", "["}, {"[]", "[]"}, {"[!]", "[!]"}, {"]", "[]]"}, {"-", "[-]"}, {"-", "[a-]"}, {"-", "[!a]"}, {"!", "[a!]"}, {"a", "[a-a]"}, {"b", "[a-c]"}, {"a", "[a-c]"}, {"c", "[a-c]"}, {"]", "[]-a]"}, {"a", "[]-a]"}, {"^", "[]-a]"}, {"b", "[!]-a]"}, {"*", "[*]"}, {"?", "\\?"}};
-        String[][] fitsNot = {{"a", ""}, {"", "?"}, {"a", "??"}, {"ab", "?"}, {"", "[a]"}, {"a", "[!a]"}, {"", "[!a]"}, {"ab", "[ab]"}, {"d", "[a-c]"}, {"`", "[a-c]"}, {"b", "[c-a]"}, {"a", "[c-a]"}, {"]", "[!]]"}, {"b", "[]-a]"}, {"\\\\", "[]-a"}, {"a", "\\*"}, {"x", "'?'"}, {"b", "[a'-'c]"}, {"a", "[\\!a"}};
+        String[][] fits = {{"", ""}, {"", "*"}, {"", "**"}, {"a", "?"}, {"a", "*?"}, {"ab", "*"}, {"ab", "??"}, {"[", "["}, {"[]", "[]"}, {"[!]", "[!]"}, {"]", "[]]"}, {"-", "[-]"}, {"-", "[a-]"}, {"-", "[!a]"}, {"!", "[a!]"}, {"a", "[a-a]"}, {"!", "[!a]"}, {"b", "[!a!]"}, {"b", "[a-c]"}, {"a", "[a-c]"}, {"c", "[a-c]"}, {"]", "[]-a]"}, {"a", "[]-a]"}, {"^", "[]-a]"}, {"b", "[!]-a]"}, {"*", "[*]"}, {"?", "\\?"}};
+        String[][] fitsNot = {{"a", ""}, {"", "?"}, {"a", "??"}, {"ab", "?"}, {"", "[a]"}, {"a", "[!a]"}, {"", "[!a]"}, {"ab", "[ab]"}, {"!", "[!!]"}, {"d", "[a-c]"}, {"`", "[a-c]"}, {"b", "[c-a]"}, {"a", "[c-a]"}, {"]", "[!]]"}, {"b", "[]-a]"}, {"\\\\", "[]-a"}, {"a", "\\*"}, {"x", "'?'"}, {"b", "[a'-'c]"}, {"a", "[\\!a"}};
         for (String[] pair : fits) {
             runs("x='" + pair[0] + "'; case $x in " + (pair[1].isEmpty() ? "''" : pair[1]) + ") echo fits;; esac", "fits\n?0");
         }
@@ -314,6 +320,7 @@ public final class RunBoundsTest {
         tildes();
         substitutes();
         cuts();
+        specialCuts();
         substitutions();
         fields();
         pathNames();

@@ -164,6 +164,14 @@ public final class RunTest {
         runs("echo q > f; { rm f; echo x >&2; cat; } < f 2>> f; ls; echo q > f; { echo r >&2; cat; } < f 2>> f", "q\nr\n?0");
     }
 
+    /** Pipelines and subshells leave what was open, and the parameters of those that are around them. */
+    private static void leftAsItWas() {
+        runs(": | :; echo e >&2; echo o; { : | cat; echo f >&2; } > f; cat f; : | : 2>&1; echo g >&2; : >&2 | :; echo p", "o\np\n[2]e\nf\ng\n?0");
+        runs("f() { (:); set x y z; echo $*; }; set a b c d; f q; echo $*; f q r s t u; echo $*", "x y z\na b c d\nx y z\na b c d\n?0");
+        runs("f() { g 1; (set p q r; g 2; echo $*); echo $(set s t; g 3; echo $*) $*; : | set v; set w; echo $*; }; g() { (set k l m n o); : & set h i j; shift; echo $*; }; set a b; f c d e; echo $*", "i j\ni j\np q r\ni j s t c d e\nw\na b\n?0");
+        runs("f() { shift; (shift; set -- $* z; echo $*); set $* y; echo $*; }; set a b c; shift; f 1 2 3 4; echo $*; (f 5 6; echo $*); echo $*", "3 4 z\n2 3 4 y\nb c\nz\n6 y\nb c\nb c\n?0");
+    }
+
     private static void functions() {
         runs("f() { echo \"$# $* $0\"; set x; echo $*; shift; echo $#; }; set a b; f 1 '2 3' ''; echo $*; f; echo $#", "3 1 2 3  sh\nx\n0\na b\n0  sh\nx\n0\n2\n?0");
         runs("f() { return 3; echo no; }; f; echo $?; g() { (exit 4); return; }; g; echo $?; h() { false; }; h; echo $?; f() :; ", "fault 1 line 1");
@@ -350,6 +358,7 @@ public final class RunTest {
         subshells();
         compounds();
         behindThings();
+        leftAsItWas();
         functions();
         errors();
         optionE();

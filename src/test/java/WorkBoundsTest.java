@@ -87,8 +87,16 @@ public final class WorkBoundsTest {
             runs(made + "for i in */*/../*; do :; break; done; echo ok $i", n <= 2000 ? "ok a/daa/../daa\n?0" : "?2");
             runs(made + "set */*/../*; echo $#", n <= 1999 ? "1999\n?0" : "?2");
         }
-        // In the middle of a pattern: 44 times 44 directories, and 45 times 45.
-        runs("mkdir" + numbered("d", 44) + "; (echo */../*/nothing); echo $?; mkdir d; (echo */../*/nothing); echo $?; (echo */nothing/*/../*); echo $?", "*/../*/nothing\n0\n2\n*/nothing/*/../*\n0\n?0");
+        // In the middle of a pattern: of each directory in d all of d, so the squares come together.
+        int[][] squares = {{40, 19, 6, 1, 1}, {40, 20}, {44, 8, 1}, {44}, {45}};
+        int[] sums = {1999, 2000, 2001, 1936, 2025};
+        for (int i = 0; i < squares.length; i++) {
+            StringBuilder made = new StringBuilder("mkdir a b c d e");
+            for (int k = 0; k < squares[i].length; k++) {
+                made.append(numbered("abcde".charAt(k) + "/d", squares[i][k]));
+            }
+            runs(made + "; (echo */*/../*/nothing); echo $?; (echo */nothing/*/../*/*); echo $?", (sums[i] <= 2000 ? "*/*/../*/nothing\n0\n" : "2\n") + "*/nothing/*/../*/*\n0\n?0");
+        }
         for (int more = -1; more <= 1; more++) {
             // 64 paths of 1024 signs: 16 directories of 60 signs and a / each, and names of 48.
             String q = "e" + times("f", 45);
