@@ -227,6 +227,28 @@ public final class CallBoundsTest {
         due("read 1 of an empty tape", thrown(new Session(), "read", 1), ARGUMENT);
     }
 
+    // A fault, within whatever it is met, says nothing to the next text.
+    private static void behindFaults() {
+        String right = "f() { a $(b; c) `d` ${x-\"$y\"} $((1)); } 2> e <<E; for i in a; do case b in c) d;; esac; done | e\n$(x)\nE\n";
+        Session fresh = new Session();
+        due("read", fresh.read(right), 0);
+        String print = fresh.print();
+        String[] within = {"%", "a %", "a $(%", "a `%`", "a \"$(%", "a $(b `%`", "a ${x-$(%", "a $(( $(%", "{ %", "( %", "if %", "for i in $(%", "case $(%", "case a in $(%", "f() { %", "> $(%", "cat <<E\n$(%\nE\n", "cat <<E $(%", "x=$(cat <<E\n$(%\nE\n", "! %", "a | %", "a && %", "a 2>%"};
+        String[] wrong = {";;", "${!}", "'", "\"", "(", "${x-", "$((", "`", "<<$x\n", "<<E", times("( ", 41), times("$(a ", 41), times("${x-", 41), "$(a", "&&", "; do", "2>", "a b () "};
+        for (String ahead : within) {
+            Session s = new Session();
+            for (String text : wrong) {
+                String whole = ahead.replace("%", text);
+                due(whole, s.read(whole) % 8 > 0, true);
+                int source = s.shell.count(14);
+                due("behind " + whole, s.read(right), 0);
+                due("SOURCE behind " + whole, s.shell.count(14) - source, fresh.shell.count(14));
+                due("commands behind " + whole, s.shell.count(17), fresh.shell.count(17));
+                due("print behind " + whole, s.print(), print);
+            }
+        }
+    }
+
     // run: "it was stopped ahead of its simple command more than most"; "left as by an error, subshells too, with status 130"
     private static void stops() {
         String script = "x=0; mkdir d; f() { x=$(x=9; echo $1); set q; cd d; }\n(x=5; cd /d; set a b; set -f) > o\necho $(x=6; echo a; echo b) | { x=7; cat; }\neval 'x=1; f 3; :'\n"
@@ -373,6 +395,7 @@ public final class CallBoundsTest {
         unanswered();
         feeds();
         reads();
+        behindFaults();
         stops();
         inputs();
         written();

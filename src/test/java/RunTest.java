@@ -172,6 +172,24 @@ public final class RunTest {
         runs("f() { shift; (shift; set -- $* z; echo $*); set $* y; echo $*; }; set a b c; shift; f 1 2 3 4; echo $*; (f 5 6; echo $*); echo $*", "3 4 z\n2 3 4 y\nb c\nz\n6 y\nb c\nb c\n?0");
     }
 
+    /** More of each than the rows have that are made at first. */
+    private static void many() {
+        String set = counted("v#=# ", 40);
+        StringBuilder dollars = new StringBuilder();
+        StringBuilder numbers = new StringBuilder();
+        for (int i = 0; i < 40; i++) {
+            dollars.append(" $v").append(i);
+            numbers.append(i > 0 ? " " : "").append(i);
+        }
+        runs(set + "; " + counted("v#=x ", 40) + "true; echo" + dollars, numbers + "\n?0");
+        runs(set + "; (" + counted("v#=x; ", 40) + "(" + counted("unset v#; ", 40) + "); echo" + dollars + "); echo" + dollars, times("x ", 39) + "x\n" + numbers + "\n?0");
+        runs("(" + counted("f#() { :; }; alias a#=b; readonly r#; ", 30) + "); f0 || f29; echo $?; alias a0 || alias a29; echo $?; r0=1 r29=2; echo $r0$r29", "127\n1\n12\n?0");
+        runs("set a b c; f() { echo $#; g x " + numbers + "; echo $*; }; g() { echo $#; set " + numbers + " y; (set " + numbers + " z z; echo $#); echo $#; }; f " + numbers + " p; echo $*",
+            "41\n41\n42\n41\n" + numbers + " p\na b c\n?0");
+        runs("> f0; { { { " + counted("{ :; } > f#; ", 20) + "echo a; } > g; } 2> h; } < f0; cat g", "a\n?0");
+        runs("x=$(exit 3)$(z=1; echo $?)$(exit 4); echo $? $x; y=$(exit 5; z=2) z=$(y=$(exit 6); echo $?); echo $? $z", "4 0\n0 6\n?0");
+    }
+
     private static void functions() {
         runs("f() { echo \"$# $* $0\"; set x; echo $*; shift; echo $#; }; set a b; f 1 '2 3' ''; echo $*; f; echo $#", "3 1 2 3  sh\nx\n0\na b\n0  sh\nx\n0\n2\n?0");
         runs("f() { return 3; echo no; }; f; echo $?; g() { (exit 4); return; }; g; echo $?; h() { false; }; h; echo $?; f() :; ", "fault 1 line 1");
@@ -359,6 +377,7 @@ public final class RunTest {
         compounds();
         behindThings();
         leftAsItWas();
+        many();
         functions();
         errors();
         optionE();
