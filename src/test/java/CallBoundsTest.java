@@ -203,6 +203,14 @@ public final class CallBoundsTest {
         due("nothing is changed", seen(s), before);
         due("all of it", s.shell.put(0, 1, 16379), true);
         due("room again", s.shell.feed(0, 0, 0, 0, 0), 20);
+        Session all = new Session();
+        all.tape("#" + times("x", 16379));
+        due("all of a full tape as a script", all.shell.read(16380), 0);
+        due("its SOURCE", all.shell.count(14), 16396);
+        all.tape(times("x", 16380));
+        due("one byte more than there is", thrown(all, "input", 16381), ARGUMENT);
+        all.shell.input(16380);
+        due("all of a full tape as input", all.shell.count(4), 16380);
         due("its length", s.shell.ask(0, 0), -1);
         due("its length", s.ask(0, "a").length(), 16379);
     }

@@ -93,6 +93,7 @@ public final class ReadBoundsTest {
         runs(y + "eval \"$y\"; echo $?; (eval \"#$y\"; echo no); echo $?", "127\n2\n?0");
         runs(y + "y=${y#?????????}; eval echo ok \"#$y\"; (eval echo ok '' \"#$y\"; echo no); echo $?", "ok\n2\n?0");
         runs(y + "y=${y#??????????}; eval echo ok \"#$y\"; (eval echo ok '' \"#$y\"); echo $?", "ok\nok\n0\n?0");
+        runs(y + "printf '#%s' ${y#?} > f; wc -c f; . ./f; echo $?", "16384\n0\n?0");
         prints("", "");
         prints("\n", "");
         prints("\n\n\n", "");
