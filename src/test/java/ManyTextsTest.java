@@ -199,14 +199,31 @@ public final class ManyTextsTest {
         }
     }
 
-    /** Without aliases a print is read as the same tree. */
+    /** What the script does, but for SOURCE: it is stopped before that takes long. */
+    private static String ran(Session s) {
+        int work = s.shell.count(15);
+        StringBuilder all = new StringBuilder().append(s.shell.run(200));
+        for (int what = 1; what <= 13; what++) {
+            all.append(' ').append(s.shell.count(what));
+        }
+        all.append(' ').append(s.shell.count(15) - work).append(' ');
+        return all.append(s.bytes(1, s.shell.count(2))).append('|').append(s.bytes(2, s.shell.count(3))).toString();
+    }
+
+    /** Without aliases a print is read as the same tree, which does the same. */
     private static void againstItself(Session s) {
         String print = s.print();
         int commands = s.shell.count(17);
+        String did = ran(s);
+        boolean spent = s.shell.count(16) == 1;
+        boolean aliases = s.shell.count(8) > 0;
         s.shell.reset();
         Session.due("the print is read: " + print, s.read(print), 0);
         Session.due("the print of its print", s.print(), print);
         Session.due("commands of the print: " + print, s.shell.count(17), commands);
+        if (!spent && !aliases) {
+            Session.due("what the print does: " + print, ran(s), did);
+        }
     }
 
     public static void main(String[] args) {
