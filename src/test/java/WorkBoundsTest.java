@@ -195,8 +195,26 @@ public final class WorkBoundsTest {
         }
     }
 
+    // "that is looked at ahead of each command (ahead of all else)": ahead of the bound of 60, too
+    private static void spentAtTheBound() {
+        for (String text : new String[] {": | :", ": &", "{ :; }", "(:)"}) {
+            String script = within(60, text);
+            Session fresh = new Session();
+            due(text + " within 60", fresh.run(script), "?2");
+            // A compound has its 16 ahead of that bound.
+            int work = fresh.shell.count(15) - (text.startsWith(":") ? 0 : 16);
+            for (int more = -1; more <= 1; more++) {
+                Session s = worked(MOST - work + more);
+                due(text, s.read(script), 0);
+                due(text + " spent, or not: " + more, s.shell.run(100000), more < 0 ? 0 : 2);
+                due(text + " status: " + more, s.shell.count(1), more < 0 ? 2 : 130);
+            }
+        }
+    }
+
     public static void main(String[] args) {
         sixtyWithin();
+        spentAtTheBound();
         paths();
         spent();
         Session.end();
